@@ -1,0 +1,63 @@
+import java.util.Objects;
+
+/** What the tests of the project share: comparing answers, and counting the wrong ones. */
+final class Check {
+    interface Call {
+        void make();
+    }
+
+    private static int wrong = 0;
+    private static int made = 0;
+
+    private Check() {
+    }
+
+    static void same(String what, Object got, Object due) {
+        made++;
+        if (!Objects.equals(got, due)) {
+            wrong++;
+            System.out.println(what + ": answered " + got + ", due is " + due);
+        }
+    }
+
+    /** The call throws just this class of exception, and nothing in the fair changes by it. */
+    static void fails(String what, FairFolio fair, Class<?> due, Call call) {
+        String before = picture(fair);
+        Class<?> got = null;
+        try {
+            call.make();
+        } catch (RuntimeException e) {
+            got = e.getClass();
+        }
+        same(what + " throws", got, due);
+        same(what + " leaves the fair", picture(fair), before);
+    }
+
+    /** All that the calls of "what there is" tell of a fair. */
+    static String picture(FairFolio fair) {
+        StringBuilder text = new StringBuilder("minute " + fair.minute());
+        for (int v = 0; v < 8; v++) {
+            text.append("\n v").append(v).append(" state ").append(fair.stateOf(v))
+                    .append(" where ").append(fair.whereIs(v)).append(" place ").append(fair.placeOf(v))
+                    .append(" turn ").append(fair.turnOf(v)).append(" stamps ").append(fair.stamps(v))
+                    .append(" sent");
+            for (int p = 0; p < 6; p++) {
+                text.append(' ').append(fair.sent(v, p));
+            }
+        }
+        for (int p = 0; p < 6; p++) {
+            text.append("\n p").append(p).append(" queue ").append(fair.queue(p))
+                    .append(" inside ").append(fair.inside(p)).append(" stock ").append(fair.stock(p))
+                    .append(" demand ").append(fair.demand(p));
+        }
+        return text.toString();
+    }
+
+    /** Ends a test: exit code 1 if an answer was wrong. */
+    static void end() {
+        System.out.println(made + " checks, " + wrong + " wrong");
+        if (wrong != 0) {
+            System.exit(1);
+        }
+    }
+}
