@@ -33,6 +33,7 @@ public final class FairFolioTest {
         promise7TurnFromAnotherQueue();
         promise7TurnInTheSameQueue();
         promise7TurnsAreLost();
+        promise7UsedTurnIsForgotten();
         promise7PlanSkips();
         promise8Send();
         promise9Reprint();
@@ -485,6 +486,11 @@ public final class FairFolioTest {
         visitor("7: waits where it waited", x, 1, WAITING, 0, 0);
         Check.same("7: lost by closing, idle", x.turnOf(2), NONE);
         visitor("7: is idle", x, 2, IDLE, NONE, NONE);
+        x.ask(0, 3);
+        x.advance(5);
+        visitor("7: who is inside does not go to another's queue", x, 0, INSIDE, 0, NONE);
+        Check.same("7: nobody came", x.inside(3) + x.queue(3), 0);
+        Check.same("7: and that turn is lost", x.turnOf(0), NONE);
         FairFolio y = crowd(1, 0, 1, 5);
         y.advance(6);
         Check.same("7: has the stamp", y.stamps(0), 1);
@@ -493,6 +499,22 @@ public final class FairFolioTest {
         visitor("7: sees it again", y, 0, INSIDE, 0, NONE);
         y.advance(5);
         Check.same("7: the stamps are a set", y.stamps(0), 1);
+    }
+
+    private static void promise7UsedTurnIsForgotten() {
+        FairFolio x = crowd(2, 0, 1, 60);
+        x.setPavilion(1, 1, 1);
+        x.ask(1, 1);
+        x.advance(5);
+        visitor("7: goes in by a turn", x, 1, INSIDE, 1, NONE);
+        x.advance(1);
+        visitor("7: waits by plan after it", x, 1, WAITING, 0, 0);
+        x.ask(2, 0);
+        x.advance(4);
+        visitor("7: a turn goes ahead of who had one once", x, 2, WAITING, 0, 0);
+        visitor("7: who is behind it", x, 1, WAITING, 0, 1);
+        Check.same("7: and who waits without one drops", x.drop(1, 0), 0);
+        visitor("7: so it is idle", x, 1, IDLE, NONE, NONE);
     }
 
     private static void promise7PlanSkips() {
