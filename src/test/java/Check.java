@@ -20,6 +20,13 @@ final class Check {
         }
     }
 
+    /** The state of a visitor, where it is, and its place. */
+    static void visitor(String what, FairFolio fair, int v, int state, int where, int place) {
+        same(what + ": state of " + v, fair.stateOf(v), state);
+        same(what + ": where " + v + " is", fair.whereIs(v), where);
+        same(what + ": place of " + v, fair.placeOf(v), place);
+    }
+
     /** The call throws just this class of exception, and nothing in the fair changes by it. */
     static void fails(String what, FairFolio fair, Class<?> due, Call call) {
         String before = picture(fair);

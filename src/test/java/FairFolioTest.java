@@ -7,8 +7,6 @@ public final class FairFolioTest {
     private static final Class<?> INDEX = IndexOutOfBoundsException.class;
     private static final Class<?> ARGUMENT = IllegalArgumentException.class;
     private static final Class<?> STATE = IllegalStateException.class;
-    private static final int[] NO_PAVILION = {-1, 6, 7, Integer.MIN_VALUE, Integer.MAX_VALUE};
-    private static final int[] NO_VISITOR = {-1, 8, 9, Integer.MIN_VALUE, Integer.MAX_VALUE};
 
     private FairFolioTest() {
     }
@@ -48,27 +46,11 @@ public final class FairFolioTest {
         Check.end();
     }
 
-    private static void visitor(String what, FairFolio x, int v, int state, int where, int place) {
-        Check.same(what + ": state of " + v, x.stateOf(v), state);
-        Check.same(what + ": where " + v + " is", x.whereIs(v), where);
-        Check.same(what + ": place of " + v, x.placeOf(v), place);
-    }
-
-    /** A fair in which the visitors from 0 on, so many, have one pavilion with this room and time in plan. */
-    private static FairFolio crowd(int visitors, int pavilion, int room, int time) {
-        FairFolio x = new FairFolio();
-        x.setPavilion(pavilion, room, time);
-        for (int v = 0; v < visitors; v++) {
-            x.plan(v, pavilion);
-        }
-        return x;
-    }
-
     private static void promise1NewObject() {
         FairFolio x = new FairFolio();
         Check.same("1: minute", x.minute(), 0);
         for (int v = 0; v < 8; v++) {
-            visitor("1", x, v, IDLE, NONE, NONE);
+            Check.visitor("1", x, v, IDLE, NONE, NONE);
             Check.same("1: turn", x.turnOf(v), NONE);
             Check.same("1: stamps", x.stamps(v), 0);
             for (int p = 0; p < 6; p++) {
@@ -83,7 +65,7 @@ public final class FairFolioTest {
             roomAndTimeAtFirst(p);
         }
         Check.same("1: nobody goes anywhere without a plan", x.advance(60), 60);
-        visitor("1: after an hour", x, 7, IDLE, NONE, NONE);
+        Check.visitor("1: after an hour", x, 7, IDLE, NONE, NONE);
     }
 
     private static void roomAndTimeAtFirst(int p) {
@@ -102,13 +84,13 @@ public final class FairFolioTest {
 
     private static void promise2SetPavilion() {
         for (int room = 1; room <= 8; room++) {
-            FairFolio x = crowd(8, 3, room, 60);
+            FairFolio x = Fairs.crowd(8, 3, room, 60);
             x.advance(1);
             Check.same("2: inside with room " + room, x.inside(3), room);
             Check.same("2: queue with room " + room, x.queue(3), 8 - room);
         }
         for (int time : new int[] {1, 2, 59, 60}) {
-            FairFolio x = crowd(1, 0, 1, time);
+            FairFolio x = Fairs.crowd(1, 0, 1, time);
             x.advance(1);
             if (time > 1) {
                 x.advance(time - 1);
@@ -118,8 +100,8 @@ public final class FairFolioTest {
             Check.same("2: idle after " + time, x.stateOf(0), IDLE);
             Check.same("2: stamp after " + time, x.stamps(0), 1);
         }
-        FairFolio y = crowd(3, 0, 2, 5);
-        for (int p : NO_PAVILION) {
+        FairFolio y = Fairs.crowd(3, 0, 2, 5);
+        for (int p : Fairs.NO_PAVILION) {
             Check.fails("2: pavilion " + p, y, INDEX, () -> y.setPavilion(p, 1, 1));
             Check.fails("2: pavilion and room " + p, y, INDEX, () -> y.setPavilion(p, 0, 61));
         }
@@ -136,21 +118,21 @@ public final class FairFolioTest {
     }
 
     private static void promise2VisitsThatGoOn() {
-        FairFolio x = crowd(2, 0, 1, 10);
+        FairFolio x = Fairs.crowd(2, 0, 1, 10);
         x.advance(1);
         x.setPavilion(0, 1, 2);
         x.advance(9);
         Check.same("2: a visit that goes on keeps its longer time", x.stateOf(0), INSIDE);
         x.advance(1);
         Check.same("2: and ends by it", x.stamps(0), 1);
-        visitor("2: the next goes in", x, 1, INSIDE, 0, NONE);
+        Check.visitor("2: the next goes in", x, 1, INSIDE, 0, NONE);
         x.setPavilion(0, 1, 60);
         x.advance(2);
         Check.same("2: a visit that goes on keeps its shorter time", x.stamps(1), 1);
     }
 
     private static void promise2SmallerAndLargerRoom() {
-        FairFolio x = crowd(8, 0, 4, 3);
+        FairFolio x = Fairs.crowd(8, 0, 4, 3);
         x.advance(1);
         x.setPavilion(0, 1, 3);
         Check.same("2: a smaller room sends nobody out", x.inside(0), 4);
@@ -162,12 +144,12 @@ public final class FairFolioTest {
         Check.same("2: a larger room is filled only when a minute passes", x.inside(0), 1);
         x.advance(1);
         Check.same("2: when it passes, it is", x.inside(0), 3);
-        visitor("2: by the order of the queue", x, 6, INSIDE, 0, NONE);
-        visitor("2: the last waits", x, 7, WAITING, 0, 0);
+        Check.visitor("2: by the order of the queue", x, 6, INSIDE, 0, NONE);
+        Check.visitor("2: the last waits", x, 7, WAITING, 0, 0);
     }
 
     private static void promise3Open() {
-        FairFolio x = crowd(5, 2, 2, 5);
+        FairFolio x = Fairs.crowd(5, 2, 2, 5);
         x.plan(4, 3);
         Check.same("3: opening what is open", x.open(2, true), 0);
         x.advance(1);
@@ -175,28 +157,28 @@ public final class FairFolioTest {
         Check.same("3: three left", x.open(2, false), 3);
         Check.same("3: the queue is empty", x.queue(2), 0);
         for (int v = 2; v < 5; v++) {
-            visitor("3: sent away", x, v, IDLE, NONE, NONE);
+            Check.visitor("3: sent away", x, v, IDLE, NONE, NONE);
         }
         Check.same("3: closing what is closed", x.open(2, false), 0);
         x.advance(1);
-        visitor("3: goes to the next of the plan", x, 4, INSIDE, 3, NONE);
-        visitor("3: has nowhere to go", x, 3, IDLE, NONE, NONE);
+        Check.visitor("3: goes to the next of the plan", x, 4, INSIDE, 3, NONE);
+        Check.visitor("3: has nowhere to go", x, 3, IDLE, NONE, NONE);
         Check.same("3: opening again", x.open(2, true), 0);
-        visitor("3: opening moves nobody", x, 3, IDLE, NONE, NONE);
+        Check.visitor("3: opening moves nobody", x, 3, IDLE, NONE, NONE);
         x.advance(1);
-        visitor("3: comes again when a minute passes", x, 2, WAITING, 2, 0);
-        visitor("3: behind the first", x, 3, WAITING, 2, 1);
-        for (int p : NO_PAVILION) {
+        Check.visitor("3: comes again when a minute passes", x, 2, WAITING, 2, 0);
+        Check.visitor("3: behind the first", x, 3, WAITING, 2, 1);
+        for (int p : Fairs.NO_PAVILION) {
             Check.fails("3: open " + p, x, INDEX, () -> x.open(p, true));
             Check.fails("3: close " + p, x, INDEX, () -> x.open(p, false));
         }
     }
 
     private static void promise3InsideStay() {
-        FairFolio x = crowd(3, 2, 2, 5);
+        FairFolio x = Fairs.crowd(3, 2, 2, 5);
         x.advance(1);
         x.open(2, false);
-        visitor("3: who is inside stays", x, 0, INSIDE, 2, NONE);
+        Check.visitor("3: who is inside stays", x, 0, INSIDE, 2, NONE);
         x.advance(4);
         Check.same("3: until the time is taken", x.inside(2), 2);
         x.advance(1);
@@ -206,25 +188,25 @@ public final class FairFolioTest {
     }
 
     private static void promise3TurnsByClosing() {
-        FairFolio x = crowd(2, 1, 1, 60);
+        FairFolio x = Fairs.crowd(2, 1, 1, 60);
         x.ask(4, 1);
         x.ask(5, 1);
         x.advance(5);
-        visitor("3: waits by the turn", x, 4, WAITING, 1, 0);
-        visitor("3: waits without one", x, 1, WAITING, 1, 1);
+        Check.visitor("3: waits by the turn", x, 4, WAITING, 1, 0);
+        Check.visitor("3: waits without one", x, 1, WAITING, 1, 1);
         x.ask(2, 1);
         Check.same("3: both leave", x.open(1, false), 2);
         Check.same("3: the turn by which it waited is lost", x.turnOf(4), NONE);
         Check.same("3: turns for later minutes are kept", x.turnOf(5), 10);
         Check.same("3: and this one", x.turnOf(2), 15);
-        visitor("3: is idle", x, 4, IDLE, NONE, NONE);
-        visitor("3: is idle too", x, 1, IDLE, NONE, NONE);
+        Check.visitor("3: is idle", x, 4, IDLE, NONE, NONE);
+        Check.visitor("3: is idle too", x, 1, IDLE, NONE, NONE);
         x.open(1, true);
         x.advance(5);
-        visitor("3: a kept turn counts when it is open again", x, 5, WAITING, 1, 0);
+        Check.visitor("3: a kept turn counts when it is open again", x, 5, WAITING, 1, 0);
         Check.same("3: a lost turn stays lost", x.turnOf(4), NONE);
-        visitor("3: without it nobody comes", x, 4, IDLE, NONE, NONE);
-        FairFolio y = crowd(3, 0, 1, 60);
+        Check.visitor("3: without it nobody comes", x, 4, IDLE, NONE, NONE);
+        FairFolio y = Fairs.crowd(3, 0, 1, 60);
         y.advance(1);
         Check.same("3: asks while it waits", y.ask(2, 0), 5);
         Check.same("3: closes", y.open(0, false), 2);
@@ -247,18 +229,18 @@ public final class FairFolioTest {
         for (int i = 0; i < 6; i++) {
             x.advance(1);
             if (i == 0) {
-                visitor("4: the lower number is first", x, 6, INSIDE, 4, NONE);
-                visitor("4: the higher number waits", x, 7, WAITING, 4, 0);
+                Check.visitor("4: the lower number is first", x, 6, INSIDE, 4, NONE);
+                Check.visitor("4: the higher number waits", x, 7, WAITING, 4, 0);
                 x.advance(1);
             }
-            visitor("4: by its order", x, 7, INSIDE, order[i], NONE);
+            Check.visitor("4: by its order", x, 7, INSIDE, order[i], NONE);
             Check.same("4: stamps so far", x.stamps(7), pass);
             pass |= 1 << order[i];
         }
-        for (int wrong : NO_VISITOR) {
+        for (int wrong : Fairs.NO_VISITOR) {
             Check.fails("4: visitor " + wrong, x, INDEX, () -> x.plan(wrong, 0));
         }
-        for (int wrong : NO_PAVILION) {
+        for (int wrong : Fairs.NO_PAVILION) {
             Check.fails("4: pavilion " + wrong, x, INDEX, () -> x.plan(0, wrong));
         }
         FairFolio y = new FairFolio();
@@ -279,49 +261,49 @@ public final class FairFolioTest {
         Check.fails("5: dropped before", x, STATE, () -> x.drop(0, 3));
         Check.same("5: added at the end again", x.plan(0, 3), 3);
         x.advance(1);
-        visitor("5: the next one of the plan", x, 0, INSIDE, 1, NONE);
+        Check.visitor("5: the next one of the plan", x, 0, INSIDE, 1, NONE);
         Check.same("5: dropped while inside", x.drop(0, 1), 2);
-        visitor("5: stays inside", x, 0, INSIDE, 1, NONE);
+        Check.visitor("5: stays inside", x, 0, INSIDE, 1, NONE);
         x.advance(5);
         Check.same("5: and gets the stamp", x.stamps(0), 2);
-        visitor("5: goes on", x, 0, INSIDE, 5, NONE);
+        Check.visitor("5: goes on", x, 0, INSIDE, 5, NONE);
         Check.same("5: the last but one", x.drop(0, 5), 1);
         Check.same("5: the last", x.drop(0, 3), 0);
         x.advance(5);
-        visitor("5: an empty plan", x, 0, IDLE, NONE, NONE);
-        for (int wrong : NO_VISITOR) {
+        Check.visitor("5: an empty plan", x, 0, IDLE, NONE, NONE);
+        for (int wrong : Fairs.NO_VISITOR) {
             Check.fails("5: visitor " + wrong, x, INDEX, () -> x.drop(wrong, 0));
         }
-        for (int wrong : NO_PAVILION) {
+        for (int wrong : Fairs.NO_PAVILION) {
             Check.fails("5: pavilion " + wrong, x, INDEX, () -> x.drop(0, wrong));
         }
     }
 
     private static void promise5DropWhileWaiting() {
-        FairFolio x = crowd(5, 0, 1, 60);
+        FairFolio x = Fairs.crowd(5, 0, 1, 60);
         x.plan(3, 1);
         x.advance(1);
         x.ask(2, 0);
         Check.same("5: drops where it waits", x.drop(2, 0), 0);
-        visitor("5: is idle at once", x, 2, IDLE, NONE, NONE);
+        Check.visitor("5: is idle at once", x, 2, IDLE, NONE, NONE);
         Check.same("5: keeps the turn by which it did not wait", x.turnOf(2), 5);
-        visitor("5: ahead of it", x, 1, WAITING, 0, 0);
-        visitor("5: behind it", x, 3, WAITING, 0, 1);
-        visitor("5: the last", x, 4, WAITING, 0, 2);
+        Check.visitor("5: ahead of it", x, 1, WAITING, 0, 0);
+        Check.visitor("5: behind it", x, 3, WAITING, 0, 1);
+        Check.visitor("5: the last", x, 4, WAITING, 0, 2);
         Check.same("5: drops where it does not wait", x.drop(3, 1), 1);
-        visitor("5: waits as before", x, 3, WAITING, 0, 1);
+        Check.visitor("5: waits as before", x, 3, WAITING, 0, 1);
     }
 
     private static void promise5DropWhileWaitingByTurn() {
-        FairFolio x = crowd(3, 0, 1, 60);
+        FairFolio x = Fairs.crowd(3, 0, 1, 60);
         x.ask(2, 0);
         x.advance(5);
-        visitor("5: waits by the turn", x, 2, WAITING, 0, 0);
+        Check.visitor("5: waits by the turn", x, 2, WAITING, 0, 0);
         Check.same("5: drops", x.drop(2, 0), 0);
-        visitor("5: waits on by the turn", x, 2, WAITING, 0, 0);
+        Check.visitor("5: waits on by the turn", x, 2, WAITING, 0, 0);
         Check.same("5: has it", x.turnOf(2), 5);
         x.advance(56);
-        visitor("5: and goes inside", x, 2, INSIDE, 0, NONE);
+        Check.visitor("5: and goes inside", x, 2, INSIDE, 0, NONE);
     }
 
     private static void promise6Ask() {
@@ -348,20 +330,20 @@ public final class FairFolioTest {
         Check.fails("6: closed", y, STATE, () -> y.ask(7, 5));
         y.open(5, true);
         Check.same("6: open again", y.ask(7, 5), 10);
-        for (int wrong : NO_VISITOR) {
+        for (int wrong : Fairs.NO_VISITOR) {
             Check.fails("6: visitor " + wrong, y, INDEX, () -> y.ask(wrong, 0));
         }
-        for (int wrong : NO_PAVILION) {
+        for (int wrong : Fairs.NO_PAVILION) {
             Check.fails("6: pavilion " + wrong, y, INDEX, () -> y.ask(6, wrong));
             Check.fails("6: pavilion though it has a turn " + wrong, y, INDEX, () -> y.ask(7, wrong));
         }
     }
 
     private static void promise6AskAtTheEnd() {
-        FairFolio x = crowd(1, 0, 1, 60);
+        FairFolio x = Fairs.crowd(1, 0, 1, 60);
         x.ask(1, 0);
         x.advance(5);
-        visitor("6: waits by a turn", x, 1, WAITING, 0, 0);
+        Check.visitor("6: waits by a turn", x, 1, WAITING, 0, 0);
         Check.fails("6: has it as long as it waits by it", x, STATE, () -> x.ask(1, 1));
         FairFolio y = new FairFolio();
         y.ask(0, 1);
@@ -392,16 +374,16 @@ public final class FairFolioTest {
     }
 
     private static void promise7OrderWithinAMinute() {
-        FairFolio x = crowd(3, 0, 1, 1);
+        FairFolio x = Fairs.crowd(3, 0, 1, 1);
         x.plan(0, 1);
         x.advance(1);
-        visitor("7: in at 1", x, 0, INSIDE, 0, NONE);
-        visitor("7: waits at 1", x, 1, WAITING, 0, 0);
+        Check.visitor("7: in at 1", x, 0, INSIDE, 0, NONE);
+        Check.visitor("7: waits at 1", x, 1, WAITING, 0, 0);
         x.advance(1);
         Check.same("7: stamp at 2", x.stamps(0), 1);
-        visitor("7: in the next in the same minute", x, 0, INSIDE, 1, NONE);
-        visitor("7: into the free room in the same minute", x, 1, INSIDE, 0, NONE);
-        visitor("7: the queue moves on", x, 2, WAITING, 0, 0);
+        Check.visitor("7: in the next in the same minute", x, 0, INSIDE, 1, NONE);
+        Check.visitor("7: into the free room in the same minute", x, 1, INSIDE, 0, NONE);
+        Check.visitor("7: the queue moves on", x, 2, WAITING, 0, 0);
         FairFolio y = new FairFolio();
         y.setPavilion(0, 1, 4);
         y.plan(0, 0);
@@ -410,68 +392,68 @@ public final class FairFolioTest {
         y.ask(0, 1);
         y.advance(4);
         Check.same("7: the visit ends before the turn of the same minute", y.stamps(0), 1);
-        visitor("7: the turn comes before the plan", y, 0, INSIDE, 1, NONE);
-        FairFolio z = crowd(8, 3, 1, 60);
+        Check.visitor("7: the turn comes before the plan", y, 0, INSIDE, 1, NONE);
+        FairFolio z = Fairs.crowd(8, 3, 1, 60);
         z.advance(1);
         for (int v = 1; v < 8; v++) {
-            visitor("7: by rising numbers", z, v, WAITING, 3, v - 1);
+            Check.visitor("7: by rising numbers", z, v, WAITING, 3, v - 1);
         }
     }
 
     private static void promise7TurnGoesAhead() {
-        FairFolio x = crowd(3, 0, 1, 30);
+        FairFolio x = Fairs.crowd(3, 0, 1, 30);
         x.ask(5, 0);
         x.ask(4, 0);
         x.advance(5);
-        visitor("7: ahead of all without a turn", x, 5, WAITING, 0, 0);
-        visitor("7: one place back", x, 1, WAITING, 0, 1);
-        visitor("7: and one place back", x, 2, WAITING, 0, 2);
+        Check.visitor("7: ahead of all without a turn", x, 5, WAITING, 0, 0);
+        Check.visitor("7: one place back", x, 1, WAITING, 0, 1);
+        Check.visitor("7: and one place back", x, 2, WAITING, 0, 2);
         x.advance(5);
-        visitor("7: the earlier turn stays ahead", x, 5, WAITING, 0, 0);
-        visitor("7: behind who waits by a turn", x, 4, WAITING, 0, 1);
-        visitor("7: behind both", x, 1, WAITING, 0, 2);
+        Check.visitor("7: the earlier turn stays ahead", x, 5, WAITING, 0, 0);
+        Check.visitor("7: behind who waits by a turn", x, 4, WAITING, 0, 1);
+        Check.visitor("7: behind both", x, 1, WAITING, 0, 2);
         x.advance(21);
-        visitor("7: goes in by the turn", x, 5, INSIDE, 0, NONE);
+        Check.visitor("7: goes in by the turn", x, 5, INSIDE, 0, NONE);
         Check.same("7: the turn is used up", x.turnOf(5), NONE);
         Check.same("7: the other's is not", x.turnOf(4), 10);
         x.plan(6, 0);
         x.advance(1);
-        visitor("7: who comes by plan goes to the end", x, 6, WAITING, 0, 3);
+        Check.visitor("7: who comes by plan goes to the end", x, 6, WAITING, 0, 3);
         x.advance(29);
         Check.same("7: a stamp without a plan", x.stamps(5), 1);
-        visitor("7: the second turn", x, 4, INSIDE, 0, NONE);
-        visitor("7: the first without a turn", x, 1, WAITING, 0, 0);
+        Check.visitor("7: the second turn", x, 4, INSIDE, 0, NONE);
+        Check.visitor("7: the first without a turn", x, 1, WAITING, 0, 0);
     }
 
     private static void promise7TurnFromAnotherQueue() {
-        FairFolio x = crowd(4, 0, 1, 60);
+        FairFolio x = Fairs.crowd(4, 0, 1, 60);
         x.setPavilion(1, 1, 60);
         x.ask(2, 1);
         x.plan(7, 1);
         x.advance(4);
-        visitor("7: waits by plan", x, 2, WAITING, 0, 1);
+        Check.visitor("7: waits by plan", x, 2, WAITING, 0, 1);
         x.advance(1);
-        visitor("7: goes away to its turn", x, 2, WAITING, 1, 0);
-        visitor("7: closes up", x, 3, WAITING, 0, 1);
+        Check.visitor("7: goes away to its turn", x, 2, WAITING, 1, 0);
+        Check.visitor("7: closes up", x, 3, WAITING, 0, 1);
         Check.same("7: one less there", x.queue(0), 2);
-        visitor("7: ahead as before", x, 1, WAITING, 0, 0);
+        Check.visitor("7: ahead as before", x, 1, WAITING, 0, 0);
     }
 
     private static void promise7TurnInTheSameQueue() {
-        FairFolio x = crowd(5, 0, 1, 60);
+        FairFolio x = Fairs.crowd(5, 0, 1, 60);
         x.ask(3, 0);
         x.advance(4);
-        visitor("7: waits by plan", x, 3, WAITING, 0, 2);
+        Check.visitor("7: waits by plan", x, 3, WAITING, 0, 2);
         x.advance(1);
-        visitor("7: to the front of the same queue", x, 3, WAITING, 0, 0);
-        visitor("7: then 1", x, 1, WAITING, 0, 1);
-        visitor("7: then 2", x, 2, WAITING, 0, 2);
-        visitor("7: then 4", x, 4, WAITING, 0, 3);
+        Check.visitor("7: to the front of the same queue", x, 3, WAITING, 0, 0);
+        Check.visitor("7: then 1", x, 1, WAITING, 0, 1);
+        Check.visitor("7: then 2", x, 2, WAITING, 0, 2);
+        Check.visitor("7: then 4", x, 4, WAITING, 0, 3);
         Check.same("7: as many as before", x.queue(0), 4);
     }
 
     private static void promise7TurnsAreLost() {
-        FairFolio x = crowd(2, 0, 1, 60);
+        FairFolio x = Fairs.crowd(2, 0, 1, 60);
         x.ask(0, 0);
         x.ask(1, 1);
         x.ask(2, 2);
@@ -481,40 +463,40 @@ public final class FairFolioTest {
         Check.same("7: had until its minute", x.turnOf(2), 5);
         x.advance(1);
         Check.same("7: lost by who is inside", x.turnOf(0), NONE);
-        visitor("7: who is inside stays", x, 0, INSIDE, 0, NONE);
+        Check.visitor("7: who is inside stays", x, 0, INSIDE, 0, NONE);
         Check.same("7: lost by closing, waiting", x.turnOf(1), NONE);
-        visitor("7: waits where it waited", x, 1, WAITING, 0, 0);
+        Check.visitor("7: waits where it waited", x, 1, WAITING, 0, 0);
         Check.same("7: lost by closing, idle", x.turnOf(2), NONE);
-        visitor("7: is idle", x, 2, IDLE, NONE, NONE);
+        Check.visitor("7: is idle", x, 2, IDLE, NONE, NONE);
         x.ask(0, 3);
         x.advance(5);
-        visitor("7: who is inside does not go to another's queue", x, 0, INSIDE, 0, NONE);
+        Check.visitor("7: who is inside does not go to another's queue", x, 0, INSIDE, 0, NONE);
         Check.same("7: nobody came", x.inside(3) + x.queue(3), 0);
         Check.same("7: and that turn is lost", x.turnOf(0), NONE);
-        FairFolio y = crowd(1, 0, 1, 5);
+        FairFolio y = Fairs.crowd(1, 0, 1, 5);
         y.advance(6);
         Check.same("7: has the stamp", y.stamps(0), 1);
         Check.same("7: asks for what it has seen", y.ask(0, 0), 10);
         y.advance(4);
-        visitor("7: sees it again", y, 0, INSIDE, 0, NONE);
+        Check.visitor("7: sees it again", y, 0, INSIDE, 0, NONE);
         y.advance(5);
         Check.same("7: the stamps are a set", y.stamps(0), 1);
     }
 
     private static void promise7UsedTurnIsForgotten() {
-        FairFolio x = crowd(2, 0, 1, 60);
+        FairFolio x = Fairs.crowd(2, 0, 1, 60);
         x.setPavilion(1, 1, 1);
         x.ask(1, 1);
         x.advance(5);
-        visitor("7: goes in by a turn", x, 1, INSIDE, 1, NONE);
+        Check.visitor("7: goes in by a turn", x, 1, INSIDE, 1, NONE);
         x.advance(1);
-        visitor("7: waits by plan after it", x, 1, WAITING, 0, 0);
+        Check.visitor("7: waits by plan after it", x, 1, WAITING, 0, 0);
         x.ask(2, 0);
         x.advance(4);
-        visitor("7: a turn goes ahead of who had one once", x, 2, WAITING, 0, 0);
-        visitor("7: who is behind it", x, 1, WAITING, 0, 1);
+        Check.visitor("7: a turn goes ahead of who had one once", x, 2, WAITING, 0, 0);
+        Check.visitor("7: who is behind it", x, 1, WAITING, 0, 1);
         Check.same("7: and who waits without one drops", x.drop(1, 0), 0);
-        visitor("7: so it is idle", x, 1, IDLE, NONE, NONE);
+        Check.visitor("7: so it is idle", x, 1, IDLE, NONE, NONE);
     }
 
     private static void promise7PlanSkips() {
@@ -524,30 +506,30 @@ public final class FairFolioTest {
         x.plan(0, 3);
         x.open(5, false);
         x.advance(1);
-        visitor("7: skips the closed one", x, 0, INSIDE, 4, NONE);
+        Check.visitor("7: skips the closed one", x, 0, INSIDE, 4, NONE);
         x.open(5, true);
         x.open(3, false);
         x.advance(5);
-        visitor("7: takes it when it is open", x, 0, INSIDE, 5, NONE);
+        Check.visitor("7: takes it when it is open", x, 0, INSIDE, 5, NONE);
         x.advance(5);
-        visitor("7: skips what it has a stamp of, and the closed", x, 0, IDLE, NONE, NONE);
+        Check.visitor("7: skips what it has a stamp of, and the closed", x, 0, IDLE, NONE, NONE);
         x.open(3, true);
         x.advance(1);
-        visitor("7: the last of the plan", x, 0, INSIDE, 3, NONE);
-        FairFolio y = crowd(2, 0, 1, 60);
+        Check.visitor("7: the last of the plan", x, 0, INSIDE, 3, NONE);
+        FairFolio y = Fairs.crowd(2, 0, 1, 60);
         y.open(1, false);
         y.drop(1, 0);
         y.plan(1, 1);
         y.plan(1, 0);
         y.advance(1);
-        visitor("7: waits at the second of the plan", y, 1, WAITING, 0, 0);
+        Check.visitor("7: waits at the second of the plan", y, 1, WAITING, 0, 0);
         y.open(1, true);
         y.advance(1);
-        visitor("7: who waits stays though the first opens", y, 1, WAITING, 0, 0);
+        Check.visitor("7: who waits stays though the first opens", y, 1, WAITING, 0, 0);
     }
 
     private static void promise8Send() {
-        FairFolio x = crowd(2, 0, 8, 1);
+        FairFolio x = Fairs.crowd(2, 0, 8, 1);
         Check.fails("8: no stamp", x, STATE, () -> x.send(0, 0));
         x.advance(1);
         Check.fails("8: no stamp while inside", x, STATE, () -> x.send(0, 0));
@@ -569,32 +551,16 @@ public final class FairFolioTest {
         x.open(0, false);
         Check.same("8: a closed pavilion's cards are asked for too", x.send(0, 0), false);
         Check.fails("8: no stamp, no card: no demand", x, STATE, () -> x.send(2, 0));
-        for (int wrong : NO_VISITOR) {
+        for (int wrong : Fairs.NO_VISITOR) {
             Check.fails("8: visitor " + wrong, x, INDEX, () -> x.send(wrong, 0));
         }
-        for (int wrong : NO_PAVILION) {
+        for (int wrong : Fairs.NO_PAVILION) {
             Check.fails("8: pavilion " + wrong, x, INDEX, () -> x.send(0, wrong));
         }
     }
 
-    /** A fair in which visitor 0 has the stamps of 0, 1 and 2, no cards are left, and demand is 1, 2 and 3. */
-    private static FairFolio demanded() {
-        FairFolio x = new FairFolio();
-        for (int p = 0; p < 3; p++) {
-            x.setPavilion(p, 1, 1);
-            x.plan(0, p);
-        }
-        x.advance(4);
-        for (int p = 0; p < 3; p++) {
-            for (int i = 0; i < 11 + p; i++) {
-                x.send(0, p);
-            }
-        }
-        return x;
-    }
-
     private static void promise9Reprint() {
-        FairFolio x = demanded();
+        FairFolio x = Fairs.demanded();
         Check.same("9: no demand of 4", x.reprint(4), 0);
         Check.same("9: nor of 1000", x.reprint(1000), 0);
         Check.same("9: of 2 or more", x.reprint(2), 5);
@@ -626,7 +592,7 @@ public final class FairFolioTest {
     }
 
     private static void promise11And12StateAndWhere() {
-        FairFolio x = crowd(2, 5, 1, 2);
+        FairFolio x = Fairs.crowd(2, 5, 1, 2);
         Check.same("11: idle before", x.stateOf(0), IDLE);
         Check.same("12: nowhere before", x.whereIs(0), NONE);
         x.advance(1);
@@ -641,7 +607,7 @@ public final class FairFolioTest {
     }
 
     private static void promise13PlaceOf() {
-        FairFolio x = crowd(8, 0, 1, 1);
+        FairFolio x = Fairs.crowd(8, 0, 1, 1);
         Check.same("13: does not wait yet", x.placeOf(7), NONE);
         for (int minute = 1; minute <= 8; minute++) {
             x.advance(1);
@@ -651,7 +617,7 @@ public final class FairFolioTest {
     }
 
     private static void promise14TurnOf() {
-        FairFolio x = crowd(1, 0, 1, 20);
+        FairFolio x = Fairs.crowd(1, 0, 1, 20);
         x.advance(1);
         Check.same("14: none", x.turnOf(1), NONE);
         x.ask(1, 0);
@@ -691,7 +657,7 @@ public final class FairFolioTest {
     }
 
     private static void promise16And17QueueAndInside() {
-        FairFolio x = crowd(7, 4, 3, 2);
+        FairFolio x = Fairs.crowd(7, 4, 3, 2);
         int[] queue = {4, 4, 1, 1, 0, 0, 0};
         int[] inside = {3, 3, 3, 3, 1, 1, 0};
         for (int i = 0; i < queue.length; i++) {
@@ -704,7 +670,7 @@ public final class FairFolioTest {
     }
 
     private static void promise18To20Cards() {
-        FairFolio x = demanded();
+        FairFolio x = Fairs.demanded();
         for (int p = 0; p < 3; p++) {
             Check.same("18: none left of " + p, x.stock(p), 0);
             Check.same("19: demand for " + p, x.demand(p), p + 1);
@@ -723,8 +689,8 @@ public final class FairFolioTest {
     }
 
     private static void wrongNumbers() {
-        FairFolio x = demanded();
-        for (int wrong : NO_VISITOR) {
+        FairFolio x = Fairs.demanded();
+        for (int wrong : Fairs.NO_VISITOR) {
             Check.fails("11: visitor " + wrong, x, INDEX, () -> x.stateOf(wrong));
             Check.fails("12: visitor " + wrong, x, INDEX, () -> x.whereIs(wrong));
             Check.fails("13: visitor " + wrong, x, INDEX, () -> x.placeOf(wrong));
@@ -732,7 +698,7 @@ public final class FairFolioTest {
             Check.fails("15: visitor " + wrong, x, INDEX, () -> x.stamps(wrong));
             Check.fails("20: visitor " + wrong, x, INDEX, () -> x.sent(wrong, 0));
         }
-        for (int wrong : NO_PAVILION) {
+        for (int wrong : Fairs.NO_PAVILION) {
             Check.fails("16: pavilion " + wrong, x, INDEX, () -> x.queue(wrong));
             Check.fails("17: pavilion " + wrong, x, INDEX, () -> x.inside(wrong));
             Check.fails("18: pavilion " + wrong, x, INDEX, () -> x.stock(wrong));
