@@ -21,14 +21,14 @@ final class Check {
     }
 
     /** The state of a visitor, where it is, and its place. */
-    static void visitor(String what, FairFolio fair, int v, int state, int where, int place) {
+    static void visitor(String what, Fair fair, int v, int state, int where, int place) {
         same(what + ": state of " + v, fair.stateOf(v), state);
         same(what + ": where " + v + " is", fair.whereIs(v), where);
         same(what + ": place of " + v, fair.placeOf(v), place);
     }
 
     /** The call throws just this class of exception, and nothing in the fair changes by it. */
-    static void fails(String what, FairFolio fair, Class<?> due, Call call) {
+    static void fails(String what, Fair fair, Class<?> due, Call call) {
         String before = picture(fair);
         Class<?> got = null;
         try {
@@ -40,8 +40,9 @@ final class Check {
         same(what + " leaves the fair", picture(fair), before);
     }
 
-    /** All that the calls of "what there is" tell of a fair. */
-    static String picture(FairFolio fair) {
+    /** All that the calls of "what there is" tell of a fair; they are made on its twin, to save its own calls. */
+    static String picture(Fair seen) {
+        Fair fair = seen.again();
         StringBuilder text = new StringBuilder("minute " + fair.minute());
         for (int v = 0; v < 8; v++) {
             text.append("\n v").append(v).append(" state ").append(fair.stateOf(v))

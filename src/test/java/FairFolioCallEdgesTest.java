@@ -10,6 +10,8 @@ public final class FairFolioCallEdgesTest {
     private static final Class<?> INDEX = IndexOutOfBoundsException.class;
     private static final Class<?> ARGUMENT = IllegalArgumentException.class;
     private static final Class<?> STATE = IllegalStateException.class;
+    // So few that the day, all that is refused after it, and a look at everything are 512 calls at the most.
+    private static final int DAY_STEPS = 12;
     private static final int[] NO_ROOM = {0, 9, -1, 256, 257, Integer.MIN_VALUE, Integer.MAX_VALUE};
     private static final int[] NO_TIME = {0, 61, -1, 256, 257, Integer.MIN_VALUE, Integer.MAX_VALUE};
     private static final int[] NO_MINUTES = {0, 61, -1, -60, 256, Integer.MIN_VALUE, Integer.MAX_VALUE};
@@ -17,12 +19,12 @@ public final class FairFolioCallEdgesTest {
 
     /** A call that takes a visitor and a pavilion. */
     private interface PairCall {
-        void make(FairFolio x, int visitor, int pavilion);
+        void make(Fair x, int visitor, int pavilion);
     }
 
     /** A call that takes one number. */
     private interface NumberCall {
-        void make(FairFolio x, int number);
+        void make(Fair x, int number);
     }
 
     private FairFolioCallEdgesTest() {
@@ -64,7 +66,7 @@ public final class FairFolioCallEdgesTest {
     private static void firstAndLastNumbers() {
         for (int v = 0; v <= 7; v += 7) {
             for (int p = 0; p <= 5; p += 5) {
-                FairFolio x = new FairFolio();
+                Fair x = new Fair();
                 String what = "visitor " + v + ", pavilion " + p;
                 x.setPavilion(p, 1, 1);
                 Check.same(what + ": close", x.open(p, false), 0);
@@ -89,8 +91,8 @@ public final class FairFolioCallEdgesTest {
         }
     }
 
-    private static FairFolio busy() {
-        FairFolio x = Fairs.crowd(5, 0, 2, 3);
+    private static Fair busy() {
+        Fair x = Fairs.crowd(5, 0, 2, 3);
         x.plan(7, 5);
         x.ask(5, 0);
         x.advance(4);
@@ -102,35 +104,38 @@ public final class FairFolioCallEdgesTest {
 
     /** "if there is no such visitor or pavilion": each call, in a fair in which much goes on. */
     private static void noSuchNumbers() {
-        FairFolio x = busy();
-        PairCall[] pairs = {FairFolio::plan, FairFolio::drop, FairFolio::ask, FairFolio::send, FairFolio::sent};
+        PairCall[] pairs = {Fair::plan, Fair::drop, Fair::ask, Fair::send, Fair::sent};
         for (int i = 0; i < pairs.length; i++) {
-            PairCall call = pairs[i];
-            for (int v : Fairs.NO_VISITOR) {
-                for (int p = 0; p < 6; p++) {
-                    int known = p;
-                    Check.fails("call " + i + ", visitor " + v, x, INDEX, () -> call.make(x, v, known));
-                }
-                for (int p : Fairs.NO_PAVILION) {
-                    Check.fails("call " + i + ", both " + v + ", " + p, x, INDEX, () -> call.make(x, v, p));
-                }
-            }
-            for (int p : Fairs.NO_PAVILION) {
-                for (int v = 0; v < 8; v++) {
-                    int known = v;
-                    Check.fails("call " + i + ", pavilion " + p, x, INDEX, () -> call.make(x, known, p));
-                }
-            }
+            noSuchPair("call " + i, busy(), pairs[i]);
         }
-        NumberCall[] ofVisitors = {FairFolio::stateOf, FairFolio::whereIs, FairFolio::placeOf,
-            FairFolio::turnOf, FairFolio::stamps};
+        Fair x = busy();
+        NumberCall[] ofVisitors = {Fair::stateOf, Fair::whereIs, Fair::placeOf,
+            Fair::turnOf, Fair::stamps};
         noSuchNumber("visitor", x, ofVisitors, Fairs.NO_VISITOR);
-        NumberCall[] ofPavilions = {FairFolio::queue, FairFolio::inside, FairFolio::stock, FairFolio::demand,
+        NumberCall[] ofPavilions = {Fair::queue, Fair::inside, Fair::stock, Fair::demand,
             (y, p) -> y.open(p, true), (y, p) -> y.open(p, false), (y, p) -> y.setPavilion(p, 1, 1)};
         noSuchNumber("pavilion", x, ofPavilions, Fairs.NO_PAVILION);
     }
 
-    private static void noSuchNumber(String what, FairFolio x, NumberCall[] calls, int[] wrong) {
+    private static void noSuchPair(String what, Fair x, PairCall call) {
+        for (int v : Fairs.NO_VISITOR) {
+            for (int p = 0; p < 6; p++) {
+                int known = p;
+                Check.fails(what + ", visitor " + v, x, INDEX, () -> call.make(x, v, known));
+            }
+            for (int p : Fairs.NO_PAVILION) {
+                Check.fails(what + ", both " + v + ", " + p, x, INDEX, () -> call.make(x, v, p));
+            }
+        }
+        for (int p : Fairs.NO_PAVILION) {
+            for (int v = 0; v < 8; v++) {
+                int known = v;
+                Check.fails(what + ", pavilion " + p, x, INDEX, () -> call.make(x, known, p));
+            }
+        }
+    }
+
+    private static void noSuchNumber(String what, Fair x, NumberCall[] calls, int[] wrong) {
         for (int i = 0; i < calls.length; i++) {
             NumberCall call = calls[i];
             for (int number : wrong) {
@@ -141,7 +146,7 @@ public final class FairFolioCallEdgesTest {
 
     /** "if several exceptions apply, the one that its @throws lines name first is thrown." */
     private static void noSuchNumbersComeFirst() {
-        FairFolio x = busy();
+        Fair x = busy();
         Check.fails("no pavilion, no room", x, INDEX, () -> x.setPavilion(6, 0, 1));
         Check.fails("no pavilion, no time", x, INDEX, () -> x.setPavilion(-1, 1, 61));
         Check.fails("no pavilion, neither", x, INDEX, () -> x.setPavilion(6, 9, 0));
@@ -151,7 +156,7 @@ public final class FairFolioCallEdgesTest {
         Check.fails("no pavilion, in nobody's plan", x, INDEX, () -> x.drop(0, 6));
         Check.fails("no pavilion, of which it has no stamp", x, INDEX, () -> x.send(0, 6));
         Check.fails("no visitor, who has no stamp", x, INDEX, () -> x.send(-1, 0));
-        FairFolio y = Fairs.at(1200);
+        Fair y = Fairs.at(1200);
         for (int wrong : NO_MINUTES) {
             Check.fails("out of range, and at the end: " + wrong, y, ARGUMENT, () -> y.advance(wrong));
         }
@@ -159,12 +164,12 @@ public final class FairFolioCallEdgesTest {
 
     /** Promise 1: what happens in one fair leaves the others as they are, and a new one is new. */
     private static void promise1FairsOfTheirOwn() {
-        FairFolio before = new FairFolio();
+        Fair before = new Fair();
         String untouched = Check.picture(before);
         Fairs.demanded();
-        FairFolio x = busy();
+        Fair x = busy();
         Check.same("the one before", Check.picture(before), untouched);
-        Check.same("the one after", Check.picture(new FairFolio()), untouched);
+        Check.same("the one after", Check.picture(new Fair()), untouched);
         Check.same("the busy one is not", Check.picture(x).equals(untouched), false);
         for (int p = 0; p < 6; p++) {
             Check.same("nothing in the plan", before.plan(1, p), p + 1);
@@ -176,7 +181,7 @@ public final class FairFolioCallEdgesTest {
         int[][] settings = {{1, 1}, {1, 60}, {8, 1}, {8, 60}};
         for (int p = 0; p < 6; p++) {
             for (int[] setting : settings) {
-                FairFolio x = Fairs.crowd(8, p, setting[0], setting[1]);
+                Fair x = Fairs.crowd(8, p, setting[0], setting[1]);
                 x.advance(1);
                 Check.same("room " + setting[0], x.inside(p), setting[0]);
                 Fairs.advanceTo(x, setting[1]);
@@ -189,7 +194,7 @@ public final class FairFolioCallEdgesTest {
 
     /** Promise 2: "if room or time is out of range": each of them, both, and neither is taken then. */
     private static void promise2Refused() {
-        FairFolio x = Fairs.crowd(5, 0, 3, 7);
+        Fair x = Fairs.crowd(5, 0, 3, 7);
         x.advance(1);
         for (int room : NO_ROOM) {
             Check.fails("room " + room, x, ARGUMENT, () -> x.setPavilion(0, room, 1));
@@ -215,7 +220,7 @@ public final class FairFolioCallEdgesTest {
     /** Promise 3: who closes what is closed, or opens what is open, does nothing. */
     private static void promise3ClosedStaysClosed() {
         for (int p = 0; p < 6; p++) {
-            FairFolio x = Fairs.crowd(3, p, 1, 60);
+            Fair x = Fairs.crowd(3, p, 1, 60);
             Check.same("nobody waits yet", x.open(p, false), 0);
             Check.same("closed twice", x.open(p, false), 0);
             x.setPavilion(p, 1, 60);
@@ -238,7 +243,7 @@ public final class FairFolioCallEdgesTest {
 
     /** Promise 4: "if it is in the plan": while idle, waiting, inside, and with its stamp. */
     private static void promise4InThePlan() {
-        FairFolio x = Fairs.crowd(2, 3, 1, 2);
+        Fair x = Fairs.crowd(2, 3, 1, 2);
         Check.fails("idle", x, STATE, () -> x.plan(0, 3));
         x.advance(1);
         Check.fails("inside", x, STATE, () -> x.plan(0, 3));
@@ -255,7 +260,7 @@ public final class FairFolioCallEdgesTest {
 
     /** Promise 5: "if it is not in the plan": never, another's, not any more, though it waits or is there. */
     private static void promise5NotInThePlan() {
-        FairFolio x = Fairs.crowd(1, 0, 1, 60);
+        Fair x = Fairs.crowd(1, 0, 1, 60);
         x.ask(1, 0);
         x.ask(2, 1);
         x.advance(5);
@@ -273,7 +278,7 @@ public final class FairFolioCallEdgesTest {
     /** Promise 5: "who waits there without a turn is IDLE by that": there, elsewhere, with and without one. */
     private static void promise5WithAndWithoutATurn() {
         for (int who = 1; who < 4; who++) {
-            FairFolio x = Fairs.crowd(4, 2, 1, 60);
+            Fair x = Fairs.crowd(4, 2, 1, 60);
             x.plan(who, 4);
             x.advance(1);
             Check.same("where it does not wait", x.drop(who, 4), 1);
@@ -289,7 +294,7 @@ public final class FairFolioCallEdgesTest {
             x.advance(60);
             Check.visitor("it does not come back", x, who, IDLE, NONE, NONE);
         }
-        FairFolio y = Fairs.crowd(3, 2, 1, 60);
+        Fair y = Fairs.crowd(3, 2, 1, 60);
         y.ask(2, 2);
         y.ask(1, 3);
         y.advance(4);
@@ -308,7 +313,7 @@ public final class FairFolioCallEdgesTest {
 
     /** Promise 6: "if the visitor has a turn": here, elsewhere, now, and past. */
     private static void promise6HasATurn() {
-        FairFolio x = Fairs.crowd(1, 0, 1, 20);
+        Fair x = Fairs.crowd(1, 0, 1, 20);
         x.ask(1, 0);
         for (int minute = 0; minute <= 20; minute++) {
             Fairs.advanceTo(x, minute);
@@ -324,7 +329,7 @@ public final class FairFolioCallEdgesTest {
 
     /** Promise 6: "or the pavilion is closed": whether the visitor is idle, inside it, or has a turn. */
     private static void promise6Closed() {
-        FairFolio x = Fairs.crowd(2, 5, 1, 60);
+        Fair x = Fairs.crowd(2, 5, 1, 60);
         x.advance(1);
         x.ask(2, 5);
         x.open(5, false);
@@ -339,12 +344,12 @@ public final class FairFolioCallEdgesTest {
 
     /** Promise 7: minutes "1 to 60": 0, 61 and numbers far away are refused, each other is taken. */
     private static void promise7OutOfRange() {
-        FairFolio x = busy();
+        Fair x = busy();
         for (int wrong : NO_MINUTES) {
             Check.fails("minutes " + wrong, x, ARGUMENT, () -> x.advance(wrong));
         }
         for (int minutes = 1; minutes <= 60; minutes++) {
-            FairFolio y = new FairFolio();
+            Fair y = new Fair();
             Check.same("minutes " + minutes, y.advance(minutes), minutes);
             Check.same("minute " + minutes, y.minute(), minutes);
         }
@@ -353,10 +358,10 @@ public final class FairFolioCallEdgesTest {
     /** Promise 7: the minute may be 1200, and what it brings comes. */
     private static void promise7UpTo1200() {
         for (int minutes = 1; minutes <= 60; minutes++) {
-            FairFolio x = Fairs.at(1200 - minutes);
+            Fair x = Fairs.at(1200 - minutes);
             Check.same("just 1200 by " + minutes, x.advance(minutes), 1200);
         }
-        FairFolio x = Fairs.at(1198);
+        Fair x = Fairs.at(1198);
         x.setPavilion(0, 1, 1);
         x.plan(0, 0);
         x.plan(1, 0);
@@ -370,7 +375,7 @@ public final class FairFolioCallEdgesTest {
     /** Promise 7: "if the minute would be above 1200": by one, by many, and no part of them passes. */
     private static void promise7Above1200() {
         for (int minutes = 1; minutes <= 60; minutes++) {
-            FairFolio x = Fairs.at(1201 - minutes);
+            Fair x = Fairs.at(1201 - minutes);
             x.plan(0, 0);
             int tooMany = minutes;
             Check.fails("1201 by " + minutes, x, STATE, () -> x.advance(tooMany));
@@ -379,7 +384,7 @@ public final class FairFolioCallEdgesTest {
                 Check.same("inside for 5 of them", x.stateOf(0), minutes < 7 ? INSIDE : IDLE);
             }
         }
-        FairFolio x = Fairs.at(1200);
+        Fair x = Fairs.at(1200);
         for (int minutes = 1; minutes <= 60; minutes++) {
             int tooMany = minutes;
             Check.fails("at the end " + minutes, x, STATE, () -> x.advance(tooMany));
@@ -389,8 +394,8 @@ public final class FairFolioCallEdgesTest {
 
     /** Promise 7: sixty minutes at once are sixty times one. */
     private static void promise7OneOrMany() {
-        FairFolio one = busy();
-        FairFolio many = busy();
+        Fair one = busy();
+        Fair many = busy();
         for (int i = 0; i < 60; i++) {
             one.advance(1);
         }
@@ -400,7 +405,7 @@ public final class FairFolioCallEdgesTest {
 
     /** Promise 8: "if the visitor has no stamp of it": idle, waiting, inside, another's; none of it is demand. */
     private static void promise8NoStamp() {
-        FairFolio x = Fairs.crowd(2, 0, 1, 5);
+        Fair x = Fairs.crowd(2, 0, 1, 5);
         Check.fails("idle", x, STATE, () -> x.send(0, 0));
         x.advance(5);
         Check.fails("inside, a minute early", x, STATE, () -> x.send(0, 0));
@@ -421,7 +426,7 @@ public final class FairFolioCallEdgesTest {
 
     /** "Each pavilion has a stock of cards, 10 at first": the tenth, the eleventh, and after a reprint. */
     private static void promise8TheLastCard() {
-        FairFolio x = Fairs.crowd(3, 0, 3, 1);
+        Fair x = Fairs.crowd(3, 0, 3, 1);
         x.advance(2);
         for (int i = 1; i <= 10; i++) {
             Check.same("card " + i, x.send(i % 3, 0), true);
@@ -447,7 +452,7 @@ public final class FairFolioCallEdgesTest {
 
     /** Promises 8, 18, 19 and 20: a card of one pavilion is none of another. */
     private static void promise8CardsOfEachPavilion() {
-        FairFolio x = new FairFolio();
+        Fair x = new Fair();
         for (int p = 0; p < 6; p++) {
             x.setPavilion(p, 1, 1);
             x.plan(7, p);
@@ -469,7 +474,7 @@ public final class FairFolioCallEdgesTest {
 
     /** Promise 9: threshold "1 to 1000": 0, 1001 and numbers far away are refused. */
     private static void promise9OutOfRange() {
-        FairFolio x = Fairs.demanded();
+        Fair x = Fairs.demanded();
         for (int wrong : NO_THRESHOLD) {
             Check.fails("threshold " + wrong, x, ARGUMENT, () -> x.reprint(wrong));
         }
@@ -481,7 +486,7 @@ public final class FairFolioCallEdgesTest {
     private static void promise9Threshold() {
         int[] printed = {6, 5, 3, 0};
         for (int threshold = 1; threshold <= 4; threshold++) {
-            FairFolio x = Fairs.demanded();
+            Fair x = Fairs.demanded();
             Check.same("threshold " + threshold, x.reprint(threshold), printed[threshold - 1]);
             for (int p = 0; p < 3; p++) {
                 boolean met = p + 1 >= threshold;
@@ -496,10 +501,10 @@ public final class FairFolioCallEdgesTest {
 
     /** Promise 9: without demand nothing is printed, whether cards are left or not. */
     private static void promise9NothingToPrint() {
-        FairFolio x = new FairFolio();
+        Fair x = new Fair();
         Check.same("a new fair", x.reprint(1), 0);
         Check.same("stock of a new fair", x.stock(0), 10);
-        FairFolio y = Fairs.crowd(1, 0, 1, 1);
+        Fair y = Fairs.crowd(1, 0, 1, 1);
         y.advance(2);
         for (int i = 0; i < 10; i++) {
             y.send(0, 0);
@@ -512,7 +517,7 @@ public final class FairFolioCallEdgesTest {
 
     /** "and its demand is 0 then": what was below the threshold grows on. */
     private static void promise9PrintedAndGone() {
-        FairFolio x = Fairs.demanded();
+        Fair x = Fairs.demanded();
         Check.same("3 is met", x.reprint(3), 3);
         Check.same("once", x.reprint(3), 0);
         x.send(0, 0);
@@ -528,7 +533,7 @@ public final class FairFolioCallEdgesTest {
 
     /** "An object is used for at most 512 calls": as much demand as they can make, and its reprint. */
     private static void promise19DemandOf512Calls() {
-        FairFolio x = Fairs.crowd(1, 5, 1, 1);
+        Fair x = Fairs.crowd(1, 5, 1, 1);
         x.advance(2);
         // setPavilion, plan and advance were three calls; demand, reprint and stock are to be the last three.
         for (int call = 4; call <= 509; call++) {
@@ -541,7 +546,7 @@ public final class FairFolioCallEdgesTest {
 
     /** Promise 13: "from 0; NONE if it does not wait": idle, first, last, inside. */
     private static void promise13PlacesFromZero() {
-        FairFolio x = Fairs.crowd(8, 0, 1, 60);
+        Fair x = Fairs.crowd(8, 0, 1, 60);
         for (int v = 0; v < 8; v++) {
             Check.same("idle", x.placeOf(v), NONE);
         }
@@ -555,7 +560,7 @@ public final class FairFolioCallEdgesTest {
 
     /** Promise 14: "which is past or now while it waits by the turn; NONE if it has none." */
     private static void promise14PastNowAndLater() {
-        FairFolio x = Fairs.crowd(1, 1, 1, 9);
+        Fair x = Fairs.crowd(1, 1, 1, 9);
         Check.same("none", x.turnOf(3), NONE);
         x.ask(3, 1);
         for (int minute = 0; minute <= 9; minute++) {
@@ -570,7 +575,7 @@ public final class FairFolioCallEdgesTest {
 
     /** Promise 15: "as a set: the bit p for the pavilion p": none, each, all of them. */
     private static void promise15AllStamps() {
-        FairFolio x = new FairFolio();
+        Fair x = new Fair();
         for (int p = 0; p < 6; p++) {
             x.setPavilion(p, 8, 1);
             for (int v = 0; v < 8; v++) {
@@ -592,28 +597,46 @@ public final class FairFolioCallEdgesTest {
 
     /**
      * "A call that throws an exception changes nothing", also of what no call tells: of two fairs with the same
-     * day, one gets all refused calls in each minute, and they stay the same to the end.
+     * day, one gets all refused calls at the end of the day, and the next hours are the same in both.
      */
     private static void refusedCallsLeaveTheDay() {
-        Day quiet = new Day();
-        Day bothered = new Day();
-        for (int step = 0; step < 60; step++) {
-            quiet.step(step);
-            bothered.step(step);
-            bothered.refusals();
-            Check.same("step " + step, Check.picture(bothered.fair), Check.picture(quiet.fair));
+        for (int first = 0; first < 60; first += DAY_STEPS) {
+            for (int steps = 0; steps <= DAY_STEPS; steps++) {
+                Day quiet = new Day(first, steps);
+                Day bothered = new Day(first, steps);
+                bothered.refusals();
+                String what = "from " + first + ", " + steps + " steps";
+                Check.same(what, Check.picture(bothered.fair), Check.picture(quiet.fair));
+                quiet.evening();
+                bothered.evening();
+                Check.same(what + ", hours later", Check.picture(bothered.fair), Check.picture(quiet.fair));
+            }
         }
-        Fairs.advanceTo(quiet.fair, 1200);
-        Fairs.advanceTo(bothered.fair, 1200);
-        bothered.refusals();
-        Check.same("at the end", Check.picture(bothered.fair), Check.picture(quiet.fair));
+        Day last = new Day(0, DAY_STEPS);
+        Fairs.advanceTo(last.fair, 1200);
+        last.refusals();
+        Check.fails("advance 1", last.fair, STATE, () -> last.fair.advance(1));
     }
 
     /** A fair of which plans and closed pavilions are known, so that it is known what it must refuse. */
     private static final class Day {
-        private final FairFolio fair = new FairFolio();
+        private final Fair fair = new Fair();
         private final boolean[][] planned = new boolean[8][6];
         private final boolean[] closed = new boolean[6];
+
+        private Day(int first, int steps) {
+            for (int i = 0; i < steps; i++) {
+                step(first + i);
+            }
+        }
+
+        /** Opens all pavilions in turn, so that rooms, times, plans and turns can be seen in what comes. */
+        private void evening() {
+            for (int p = 0; p < 6; p++) {
+                fair.open(p, true);
+                fair.advance(1 + p);
+            }
+        }
 
         private void step(int step) {
             int v = step * 5 % 8;
@@ -676,9 +699,6 @@ public final class FairFolioCallEdgesTest {
             Check.fails("advance 61", fair, ARGUMENT, () -> fair.advance(61));
             Check.fails("reprint 0", fair, ARGUMENT, () -> fair.reprint(0));
             Check.fails("reprint 1001", fair, ARGUMENT, () -> fair.reprint(1001));
-            if (fair.minute() == 1200) {
-                Check.fails("advance 1", fair, STATE, () -> fair.advance(1));
-            }
         }
     }
 }

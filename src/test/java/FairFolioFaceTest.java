@@ -34,6 +34,7 @@ public final class FairFolioFaceTest {
         Check.same("public constructors without parameters", publicConstructors(), 1);
         methods();
         fields();
+        classesInside();
         Check.end();
     }
 
@@ -53,6 +54,7 @@ public final class FairFolioFaceTest {
         for (Method method : FairFolio.class.getDeclaredMethods()) {
             if (!Modifier.isPrivate(method.getModifiers())) {
                 seen.add(told(method));
+                Check.same(method.getName() + " is public and nothing more", method.getModifiers(), Modifier.PUBLIC);
             } else {
                 Check.same("the private " + method.getName() + " bears a public name",
                         names.contains(method.getName()), false);
@@ -78,17 +80,24 @@ public final class FairFolioFaceTest {
         TreeSet<String> seen = new TreeSet<>();
         for (Field field : FairFolio.class.getDeclaredFields()) {
             if (!Modifier.isPrivate(field.getModifiers())) {
-                seen.add(Modifier.toString(field.getModifiers()) + " " + field.getName());
+                seen.add(Modifier.toString(field.getModifiers()) + " " + field.getType() + " " + field.getName());
             }
         }
         TreeSet<String> due = new TreeSet<>();
         for (String name : new String[] {"NONE", "IDLE", "WAITING", "INSIDE"}) {
-            due.add("public static final " + name);
+            due.add("public static final int " + name);
         }
         Check.same("fields that others see", seen, due);
         Check.same("NONE", FairFolio.NONE, -1);
         Check.same("IDLE", FairFolio.IDLE, 0);
         Check.same("WAITING", FairFolio.WAITING, 1);
         Check.same("INSIDE", FairFolio.INSIDE, 2);
+    }
+
+    private static void classesInside() {
+        for (Class<?> inside : FairFolio.class.getDeclaredClasses()) {
+            int seen = inside.getModifiers() & (Modifier.PUBLIC | Modifier.PROTECTED | Modifier.STATIC);
+            Check.same(inside.getName() + " is static, and no part of the face", seen, Modifier.STATIC);
+        }
     }
 }

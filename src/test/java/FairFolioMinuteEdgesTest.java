@@ -53,8 +53,8 @@ public final class FairFolioMinuteEdgesTest {
     }
 
     /** A fair with room for 1 at this pavilion and an hour's visit, in which visitor 7 is inside from minute 1. */
-    private static FairFolio occupied(int pavilion) {
-        FairFolio x = new FairFolio();
+    private static Fair occupied(int pavilion) {
+        Fair x = new Fair();
         x.setPavilion(pavilion, 1, 60);
         x.plan(7, pavilion);
         x.advance(1);
@@ -63,7 +63,7 @@ public final class FairFolioMinuteEdgesTest {
     }
 
     /** The visitors, told by their numbers, wait in just this order, and nobody else does. */
-    private static void queueIs(String what, FairFolio x, int pavilion, int... order) {
+    private static void queueIs(String what, Fair x, int pavilion, int... order) {
         Check.same(what + ": how many wait", x.queue(pavilion), order.length);
         for (int place = 0; place < order.length; place++) {
             Check.visitor(what, x, order[place], WAITING, pavilion, place);
@@ -72,7 +72,7 @@ public final class FairFolioMinuteEdgesTest {
 
     /** "Time is told in minutes, from 0." "its number is 1 more than before." */
     private static void timeFromZero() {
-        FairFolio x = new FairFolio();
+        Fair x = new Fair();
         Check.same("from 0", x.minute(), 0);
         for (int minute = 1; minute <= 61; minute++) {
             Check.same("1 more", x.advance(1), minute);
@@ -84,7 +84,7 @@ public final class FairFolioMinuteEdgesTest {
     private static void roomForSome() {
         for (int room = 1; room <= 8; room++) {
             for (int visitors = 0; visitors <= 8; visitors++) {
-                FairFolio x = Fairs.crowd(visitors, 5, room, 60);
+                Fair x = Fairs.crowd(visitors, 5, room, 60);
                 x.advance(1);
                 String what = "room " + room + " for " + visitors;
                 Check.same(what + ": inside", x.inside(5), Math.min(room, visitors));
@@ -98,7 +98,7 @@ public final class FairFolioMinuteEdgesTest {
 
     /** "as long as there is room": a room made smaller than what is inside, equal to it, and larger. */
     private static void roomMadeSmallerOrLarger() {
-        FairFolio x = Fairs.crowd(8, 0, 1, 60);
+        Fair x = Fairs.crowd(8, 0, 1, 60);
         x.advance(1);
         x.setPavilion(0, 3, 10);
         x.advance(1);
@@ -121,7 +121,7 @@ public final class FairFolioMinuteEdgesTest {
 
     /** "a plan, a row of up to 6 pavilions, in which none comes twice": empty, full, and one more. */
     private static void planEmptyAndFull() {
-        FairFolio x = new FairFolio();
+        Fair x = new Fair();
         for (int p = 0; p < 6; p++) {
             int pavilion = p;
             Check.fails("none in the empty plan", x, STATE, () -> x.drop(3, pavilion));
@@ -150,7 +150,7 @@ public final class FairFolioMinuteEdgesTest {
     /** "A visit that has been made ends with a stamp": the second stamp of a pavilion is the first one. */
     private static void stampTwice() {
         for (int p = 0; p < 6; p++) {
-            FairFolio x = Fairs.crowd(1, p, 1, 1);
+            Fair x = Fairs.crowd(1, p, 1, 1);
             x.advance(2);
             Check.same("first", x.stamps(0), 1 << p);
             x.ask(0, p);
@@ -166,7 +166,7 @@ public final class FairFolioMinuteEdgesTest {
     /** Minute, 1: "whose visit has taken its time by then": a minute early, just then, for each time. */
     private static void minute1TimeTaken() {
         for (int time = 1; time <= 60; time++) {
-            FairFolio x = Fairs.crowd(1, 2, 1, time);
+            Fair x = Fairs.crowd(1, 2, 1, time);
             x.advance(1);
             Check.visitor("begins: " + time, x, 0, INSIDE, 2, NONE);
             Fairs.advanceTo(x, time);
@@ -181,7 +181,7 @@ public final class FairFolioMinuteEdgesTest {
 
     /** Minute, 1: "For each visitor, by rising numbers, who is INSIDE": all eight at once. */
     private static void minute1ManyAtOnce() {
-        FairFolio x = Fairs.crowd(8, 4, 8, 60);
+        Fair x = Fairs.crowd(8, 4, 8, 60);
         x.advance(60);
         Check.same("all inside", x.inside(4), 8);
         x.advance(1);
@@ -194,7 +194,7 @@ public final class FairFolioMinuteEdgesTest {
 
     /** Minute, 2: "if it is IDLE": to an empty queue of a full pavilion, and into one with room. */
     private static void minute2IdleGoes() {
-        FairFolio x = occupied(0);
+        Fair x = occupied(0);
         x.ask(3, 0);
         x.ask(4, 1);
         x.advance(3);
@@ -209,7 +209,7 @@ public final class FairFolioMinuteEdgesTest {
     /** Minute, 2: "(away from where it waits ..)": from the first, a middle and the last place. */
     private static void minute2WaitingElsewhereGoes() {
         for (int who = 0; who < 5; who++) {
-            FairFolio x = occupied(0);
+            Fair x = occupied(0);
             x.setPavilion(1, 1, 60);
             x.plan(6, 1);
             for (int v = 0; v < 5; v++) {
@@ -232,7 +232,7 @@ public final class FairFolioMinuteEdgesTest {
     private static void minute2WaitingThereGoes() {
         int[][] due = {{0, 1, 2}, {1, 0, 2}, {2, 0, 1}};
         for (int who = 0; who < 3; who++) {
-            FairFolio x = occupied(3);
+            Fair x = occupied(3);
             for (int v = 0; v < 3; v++) {
                 x.plan(v, 3);
             }
@@ -253,7 +253,7 @@ public final class FairFolioMinuteEdgesTest {
     /** Minute, 2: "Otherwise the turn is lost": who is inside, the same pavilion or another, a minute too long. */
     private static void minute2InsideLosesIt() {
         for (int p = 0; p < 2; p++) {
-            FairFolio x = Fairs.crowd(1, 0, 1, 5);
+            Fair x = Fairs.crowd(1, 0, 1, 5);
             x.advance(1);
             Check.same("asks inside", x.ask(0, p), 5);
             x.advance(3);
@@ -271,7 +271,7 @@ public final class FairFolioMinuteEdgesTest {
     /** Minute, 1 comes before 2: a visit that ends in the minute of the turn does not lose it. */
     private static void minute2VisitEndsBeforeIt() {
         for (int p = 0; p < 2; p++) {
-            FairFolio x = Fairs.crowd(1, 0, 1, 4);
+            Fair x = Fairs.crowd(1, 0, 1, 4);
             x.advance(1);
             x.ask(0, p);
             x.advance(3);
@@ -287,7 +287,7 @@ public final class FairFolioMinuteEdgesTest {
 
     /** Minute, 2: "and the pavilion is open": closed in the last minute, and opened in the last minute. */
     private static void minute2ClosedLosesIt() {
-        FairFolio x = occupied(0);
+        Fair x = occupied(0);
         x.plan(2, 0);
         x.ask(1, 1);
         x.ask(2, 1);
@@ -307,7 +307,7 @@ public final class FairFolioMinuteEdgesTest {
         x.open(1, true);
         x.advance(1);
         Check.visitor("opened in time", x, 2, INSIDE, 1, NONE);
-        FairFolio y = occupied(0);
+        Fair y = occupied(0);
         y.plan(2, 0);
         y.ask(2, 1);
         y.open(1, false);
@@ -318,7 +318,7 @@ public final class FairFolioMinuteEdgesTest {
 
     /** Minute, 2: "ahead of all who do not wait by a turn there, behind those who do". */
     private static void minute2AheadAndBehind() {
-        FairFolio x = occupied(2);
+        Fair x = occupied(2);
         x.plan(0, 2);
         x.plan(1, 2);
         x.ask(6, 2);
@@ -344,7 +344,7 @@ public final class FairFolioMinuteEdgesTest {
 
     /** Minute, 2: a queue in which all wait by turns, of which the document asks nothing else. */
     private static void minute2OnlyTurnsWait() {
-        FairFolio x = occupied(1);
+        Fair x = occupied(1);
         for (int v = 6; v >= 0; v--) {
             Check.same("asks", x.ask(v, 1), 5 * (7 - v));
         }
@@ -357,7 +357,7 @@ public final class FairFolioMinuteEdgesTest {
 
     /** Minute, 2: "For each visitor, by rising numbers, who has a virtual turn for this minute": many of them. */
     private static void minute2ManyPavilions() {
-        FairFolio x = new FairFolio();
+        Fair x = new Fair();
         for (int v = 0; v < 6; v++) {
             Check.same("each pavilion gives it", x.ask(v, 5 - v), 5);
         }
@@ -370,7 +370,7 @@ public final class FairFolioMinuteEdgesTest {
 
     /** Minute, 2: "it waits by the turn then, and has it as long as it does." */
     private static void minute2WaitsByTheTurn() {
-        FairFolio x = occupied(0);
+        Fair x = occupied(0);
         x.ask(3, 0);
         x.advance(4);
         Check.same("now", x.turnOf(3), 5);
@@ -387,7 +387,7 @@ public final class FairFolioMinuteEdgesTest {
 
     /** Minute, 3: "if there is one": an empty plan, all closed, all stamped, and the rest closed. */
     private static void minute3NoneInPlan() {
-        FairFolio x = new FairFolio();
+        Fair x = new Fair();
         for (int p = 0; p < 6; p++) {
             x.setPavilion(p, 8, 1);
             x.open(p, false);
@@ -416,7 +416,7 @@ public final class FairFolioMinuteEdgesTest {
     /** Minute, 3: "the first pavilion of its plan that is open and of which it has no stamp". */
     private static void minute3FirstOpenWithoutStamp() {
         for (int first = 0; first < 6; first++) {
-            FairFolio x = new FairFolio();
+            Fair x = new Fair();
             for (int i = 0; i < 6; i++) {
                 x.plan(0, 5 - i);
                 x.open(5 - i, i >= first);
@@ -430,7 +430,7 @@ public final class FairFolioMinuteEdgesTest {
 
     /** Minute, 3: "it goes to the end of the queue", "by rising numbers". */
     private static void minute3EndOfTheQueue() {
-        FairFolio x = occupied(0);
+        Fair x = occupied(0);
         x.plan(5, 0);
         x.advance(1);
         x.plan(3, 0);
@@ -442,7 +442,7 @@ public final class FairFolioMinuteEdgesTest {
         x.open(0, true);
         x.advance(1);
         queueIs("all anew", x, 0, 3, 4, 5, 6);
-        FairFolio y = occupied(0);
+        Fair y = occupied(0);
         y.setPavilion(1, 1, 3);
         y.plan(0, 1);
         y.plan(0, 0);
@@ -454,7 +454,7 @@ public final class FairFolioMinuteEdgesTest {
 
     /** Minute, 3: a turn that is lost in 2 leaves its visitor to its plan in the same minute. */
     private static void minute3LostTurnThenPlan() {
-        FairFolio x = new FairFolio();
+        Fair x = new Fair();
         x.ask(2, 4);
         x.advance(4);
         x.open(4, false);
@@ -468,7 +468,7 @@ public final class FairFolioMinuteEdgesTest {
     /** Minute, 4: "as long as there is room, the first one in its queue goes INSIDE": one, some, all of them. */
     private static void minute4FirstGoesIn() {
         for (int room = 1; room <= 8; room++) {
-            FairFolio x = Fairs.crowd(8, 1, room, 2);
+            Fair x = Fairs.crowd(8, 1, room, 2);
             for (int minute = 1, gone = 0; gone < 8; minute += 2, gone += room) {
                 Fairs.advanceTo(x, minute);
                 for (int v = 0; v < 8; v++) {
@@ -483,14 +483,14 @@ public final class FairFolioMinuteEdgesTest {
 
     /** Minute, 1, 2 and 4: the place that becomes free is for who comes by a turn, not for who waited first. */
     private static void minute4TurnTakesTheLastRoom() {
-        FairFolio x = Fairs.crowd(3, 0, 1, 4);
+        Fair x = Fairs.crowd(3, 0, 1, 4);
         x.ask(7, 0);
         x.advance(4);
         queueIs("before", x, 0, 1, 2);
         x.advance(1);
         Check.visitor("in by the turn", x, 7, INSIDE, 0, NONE);
         queueIs("who waited waits on", x, 0, 1, 2);
-        FairFolio y = Fairs.crowd(3, 0, 2, 4);
+        Fair y = Fairs.crowd(3, 0, 2, 4);
         y.ask(7, 0);
         y.advance(5);
         Check.visitor("the first of two", y, 7, INSIDE, 0, NONE);
@@ -499,7 +499,7 @@ public final class FairFolioMinuteEdgesTest {
 
     /** Minute, 4: "(and a turn by which it waited is used up)": only that one. */
     private static void minute4TurnUsedUp() {
-        FairFolio x = Fairs.crowd(2, 0, 1, 1);
+        Fair x = Fairs.crowd(2, 0, 1, 1);
         x.advance(1);
         x.ask(1, 0);
         x.advance(1);
@@ -513,7 +513,7 @@ public final class FairFolioMinuteEdgesTest {
 
     /** Minute, 4: "its visit begins at this minute", and takes what the pavilion takes then. */
     private static void minute4TimeAtTheBeginning() {
-        FairFolio x = Fairs.crowd(3, 0, 1, 2);
+        Fair x = Fairs.crowd(3, 0, 1, 2);
         x.advance(2);
         x.setPavilion(0, 1, 60);
         x.advance(1);
@@ -531,7 +531,7 @@ public final class FairFolioMinuteEdgesTest {
 
     /** Minute, 4: "if it is open": rooms that become free stay free. */
     private static void minute4ClosedLetsNobodyIn() {
-        FairFolio x = Fairs.crowd(4, 0, 2, 3);
+        Fair x = Fairs.crowd(4, 0, 2, 3);
         x.ask(5, 0);
         x.advance(1);
         x.open(0, false);
@@ -549,7 +549,7 @@ public final class FairFolioMinuteEdgesTest {
     /** "one turn for each 5th minute (5, 10, 15 and so on)", "the first such minute, later than now". */
     private static void turnMinutes() {
         for (int now = 0; now <= 61; now++) {
-            FairFolio x = new FairFolio();
+            Fair x = new Fair();
             for (int i = 0; i < now; i++) {
                 x.advance(1);
             }
@@ -568,7 +568,7 @@ public final class FairFolioMinuteEdgesTest {
         int[] nows = {1190, 1194, 1195, 1196, 1199, 1200};
         int[] dues = {1195, 1195, 1200, 1200, 1200, 1205};
         for (int i = 0; i < nows.length; i++) {
-            FairFolio x = Fairs.at(nows[i]);
+            Fair x = Fairs.at(nows[i]);
             Check.same("at " + nows[i], x.ask(4, 5), dues[i]);
             Fairs.advanceTo(x, 1200);
             boolean came = dues[i] <= 1200;
@@ -580,7 +580,7 @@ public final class FairFolioMinuteEdgesTest {
 
     /** "that nobody has for this pavilion": all eight have one, and one that has come is nobody's. */
     private static void turnsOfEverybody() {
-        FairFolio x = new FairFolio();
+        Fair x = new Fair();
         for (int v = 7; v >= 0; v--) {
             Check.same("eight turns", x.ask(v, 3), 40 - 5 * v);
         }
@@ -591,7 +591,7 @@ public final class FairFolioMinuteEdgesTest {
         Check.fails("it has one", x, STATE, () -> x.ask(7, 3));
         x.advance(1);
         Check.same("the second's next", x.ask(6, 3), 50);
-        FairFolio y = occupied(3);
+        Fair y = occupied(3);
         y.ask(0, 3);
         y.advance(4);
         Check.same("waits by 5", y.turnOf(0), 5);
@@ -604,7 +604,7 @@ public final class FairFolioMinuteEdgesTest {
 
     /** "A pavilion gives one turn for each 5th minute": each pavilion its own. */
     private static void turnsOfEachPavilion() {
-        FairFolio x = new FairFolio();
+        Fair x = new Fair();
         for (int p = 0; p < 6; p++) {
             Check.same("its first", x.ask(p, p), 5);
         }
@@ -614,7 +614,7 @@ public final class FairFolioMinuteEdgesTest {
 
     /** "A visitor can have one turn at a time": and another when it was used up, or lost in each way. */
     private static void oneTurnAtATime() {
-        FairFolio used = new FairFolio();
+        Fair used = new Fair();
         used.ask(0, 0);
         Check.fails("has one here", used, STATE, () -> used.ask(0, 0));
         Check.fails("has one there", used, STATE, () -> used.ask(0, 1));
@@ -622,7 +622,7 @@ public final class FairFolioMinuteEdgesTest {
         Check.fails("has one until then", used, STATE, () -> used.ask(0, 1));
         used.advance(1);
         Check.same("used up", used.ask(0, 1), 10);
-        FairFolio closed = occupied(0);
+        Fair closed = occupied(0);
         closed.ask(0, 0);
         closed.advance(4);
         Check.fails("waits by one", closed, STATE, () -> closed.ask(0, 1));
@@ -632,7 +632,7 @@ public final class FairFolioMinuteEdgesTest {
         Check.fails("keeps a later one", closed, STATE, () -> closed.ask(0, 2));
         closed.advance(5);
         Check.same("lost because it was closed", closed.ask(0, 2), 15);
-        FairFolio inside = occupied(0);
+        Fair inside = occupied(0);
         inside.ask(7, 1);
         inside.advance(4);
         Check.same("lost by who is inside", inside.ask(7, 1), 10);
@@ -641,7 +641,7 @@ public final class FairFolioMinuteEdgesTest {
     /** "When a pavilion is closed, those who wait in its queue are IDLE": none, one, seven of them, and twice. */
     private static void closingCounts() {
         for (int waiting = 0; waiting <= 7; waiting++) {
-            FairFolio x = occupied(4);
+            Fair x = occupied(4);
             x.setPavilion(3, 1, 60);
             for (int v = 0; v < 7; v++) {
                 x.plan(v, v < waiting ? 4 : 3);
@@ -666,7 +666,7 @@ public final class FairFolioMinuteEdgesTest {
 
     /** Closing and opening let no minute pass: who left comes back only by the next one, at the end. */
     private static void closingIsNoMinute() {
-        FairFolio x = occupied(0);
+        Fair x = occupied(0);
         x.plan(4, 0);
         x.plan(4, 1);
         x.advance(1);
@@ -687,7 +687,7 @@ public final class FairFolioMinuteEdgesTest {
 
     /** "and turns by which they waited are lost": of one, and of several. */
     private static void closingLosesTurnsWaitedBy() {
-        FairFolio x = occupied(2);
+        Fair x = occupied(2);
         x.plan(6, 2);
         x.ask(0, 2);
         x.ask(1, 2);
@@ -708,7 +708,7 @@ public final class FairFolioMinuteEdgesTest {
 
     /** "Turns for later minutes are kept": of who is idle, waits there, waits elsewhere, or is inside. */
     private static void closingKeepsLaterTurns() {
-        FairFolio x = occupied(0);
+        Fair x = occupied(0);
         x.setPavilion(1, 1, 60);
         x.plan(1, 0);
         x.plan(2, 1);
@@ -740,7 +740,7 @@ public final class FairFolioMinuteEdgesTest {
 
     /** "those who are inside stay until their visits have taken their time." */
     private static void closingLeavesWhoIsInside() {
-        FairFolio x = Fairs.crowd(2, 5, 2, 4);
+        Fair x = Fairs.crowd(2, 5, 2, 4);
         x.plan(0, 0);
         x.advance(1);
         Check.same("nobody left a queue", x.open(5, false), 0);

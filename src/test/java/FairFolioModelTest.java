@@ -1,13 +1,18 @@
 import java.util.ArrayList;
+import java.util.Arrays;
 import java.util.TreeMap;
 
 /**
- * Long runs of calls on a fair and on a second, independent telling of the document (queues and those
- * inside as lists, turns as a table of pavilion and minute): each answer and the whole picture are compared.
+ * Runs of calls on a fair and on a second, independent telling of the document (queues and those inside as
+ * lists, turns as a table of pavilion and minute): each answer is compared, and at the end the whole picture.
+ * The runs are of many lengths, so that the pictures are of all times of a day.
  */
 public final class FairFolioModelTest {
-    private static final int RUNS = 400;
-    private static final int CALLS = 512;
+    private static final int RUNS = 6000;
+    // The picture at the end takes 113 more, of the 512 that the document grants.
+    private static final int MOST_CALLS = 399;
+    // The kinds of the calls that may change something, as often as they are to come.
+    private static final int[] CHANGES = {0, 1, 1, 2, 2, 2, 2, 3, 4, 4, 4, 5, 5, 5, 5, 6, 6, 6, 6, 7};
 
     /** A row of numbers that look mixed, the same in each run of the test. */
     private static final class Mixer {
@@ -74,7 +79,35 @@ public final class FairFolioModelTest {
                 case 4: return badVisitor(a) || badPavilion(b) ? "Index" : ask(a, b);
                 case 5: return advance(a);
                 case 6: return badVisitor(a) || badPavilion(b) ? "Index" : send(a, b);
-                default: return reprint(a);
+                case 7: return reprint(a);
+                case 8: return "" + minute;
+                case 18: return badVisitor(a) || badPavilion(b) ? "Index" : "" + sent[a][b];
+                default: return kind < 14 ? toldOfVisitor(kind, a) : toldOfPavilion(kind, a);
+            }
+        }
+
+        String toldOfVisitor(int kind, int v) {
+            if (badVisitor(v)) {
+                return "Index";
+            }
+            switch (kind) {
+                case 9: return "" + stateOf(v);
+                case 10: return "" + whereIs(v);
+                case 11: return "" + placeOf(v);
+                case 12: return "" + turnOf(v);
+                default: return "" + stamps(v);
+            }
+        }
+
+        String toldOfPavilion(int kind, int p) {
+            if (badPavilion(p)) {
+                return "Index";
+            }
+            switch (kind) {
+                case 14: return "" + queue(p).size();
+                case 15: return "" + within.get(p).size();
+                case 16: return "" + stock[p];
+                default: return "" + demand[p];
             }
         }
 
@@ -249,19 +282,29 @@ public final class FairFolioModelTest {
             return usedTurn[v];
         }
 
+        int placeOf(int v) {
+            int place = -1;
+            for (int p = 0; p < 6; p++) {
+                place = Math.max(place, queue(p).indexOf(v));
+            }
+            return place;
+        }
+
+        int stamps(int v) {
+            int stamps = 0;
+            for (int p = 0; p < 6; p++) {
+                stamps += stamp[v][p] ? 1 << p : 0;
+            }
+            return stamps;
+        }
+
         /** In the form of Check.picture. */
         String picture() {
             StringBuilder text = new StringBuilder("minute " + minute);
             for (int v = 0; v < 8; v++) {
-                int stamps = 0;
-                int place = -1;
-                for (int p = 0; p < 6; p++) {
-                    stamps += stamp[v][p] ? 1 << p : 0;
-                    place = Math.max(place, queue(p).indexOf(v));
-                }
                 text.append("\n v").append(v).append(" state ").append(stateOf(v))
-                        .append(" where ").append(whereIs(v)).append(" place ").append(place)
-                        .append(" turn ").append(turnOf(v)).append(" stamps ").append(stamps).append(" sent");
+                        .append(" where ").append(whereIs(v)).append(" place ").append(placeOf(v))
+                        .append(" turn ").append(turnOf(v)).append(" stamps ").append(stamps(v)).append(" sent");
                 for (int p = 0; p < 6; p++) {
                     text.append(' ').append(sent[v][p]);
                 }
@@ -275,7 +318,7 @@ public final class FairFolioModelTest {
         }
     }
 
-    private static String real(FairFolio x, int kind, int a, int b, int c) {
+    private static String real(Fair x, int kind, int a, int b, int c) {
         try {
             switch (kind) {
                 case 0: x.setPavilion(a, b, c); return "nothing";
@@ -285,7 +328,18 @@ public final class FairFolioModelTest {
                 case 4: return "" + x.ask(a, b);
                 case 5: return "" + x.advance(a);
                 case 6: return "" + x.send(a, b);
-                default: return "" + x.reprint(a);
+                case 7: return "" + x.reprint(a);
+                case 8: return "" + x.minute();
+                case 9: return "" + x.stateOf(a);
+                case 10: return "" + x.whereIs(a);
+                case 11: return "" + x.placeOf(a);
+                case 12: return "" + x.turnOf(a);
+                case 13: return "" + x.stamps(a);
+                case 14: return "" + x.queue(a);
+                case 15: return "" + x.inside(a);
+                case 16: return "" + x.stock(a);
+                case 17: return "" + x.demand(a);
+                default: return "" + x.sent(a, b);
             }
         } catch (RuntimeException e) {
             if (e.getClass() == IndexOutOfBoundsException.class) {
@@ -305,42 +359,43 @@ public final class FairFolioModelTest {
 
     private static boolean run(int seed) {
         Mixer mixer = new Mixer(seed);
-        FairFolio x = new FairFolio();
+        Fair x = new Fair();
         Model model = new Model();
+        int length = 1 + mixer.below(MOST_CALLS);
         // Some runs keep to few pavilions, so that queues grow long, and some to short steps.
         int pavilions = 1 + mixer.below(6);
         int step = mixer.below(2) == 0 ? 3 : 61;
-        int[] kinds = {0, 1, 1, 2, 2, 2, 2, 3, 4, 4, 4, 5, 5, 5, 5, 6, 6, 6, 6, 7};
-        for (int i = 0; i < CALLS; i++) {
-            int kind = kinds[mixer.below(kinds.length)];
-            int a = 0;
-            int b = 0;
-            int c = 0;
-            if (kind == 0) {
-                a = number(mixer, pavilions);
-                b = mixer.below(20) == 0 ? mixer.below(10) : 1 + mixer.below(2);
-                c = mixer.below(20) == 0 ? mixer.below(62) : 1 + mixer.below(9);
-            } else if (kind == 1) {
-                a = number(mixer, pavilions);
-                b = mixer.below(3) == 0 ? 0 : 1;
-            } else if (kind == 5) {
-                a = number(mixer, step);
-            } else if (kind == 7) {
-                a = number(mixer, mixer.below(9) == 0 ? 1001 : 4);
-            } else {
-                a = number(mixer, 8);
-                b = pavilions == 6 || mixer.below(30) != 0 ? number(mixer, pavilions) : 6;
-            }
-            String due = model.call(kind, a, b, c);
-            String got = real(x, kind, a, b, c);
-            String what = "run " + seed + ", call " + i + ", kind " + kind + "(" + a + ", " + b + ", " + c + ")";
-            Check.same(what, got, due);
-            Check.same(what + " picture", Check.picture(x), model.picture());
-            if (!got.equals(due) || !Check.picture(x).equals(model.picture())) {
+        // And in some the calls that only look are seldom, so that more happens.
+        int looks = mixer.below(2) == 0 ? 3 : 20;
+        for (int i = 0; i < length; i++) {
+            int kind = mixer.below(looks) == 0 ? 8 + mixer.below(11) : CHANGES[mixer.below(CHANGES.length)];
+            int[] numbers = numbers(mixer, kind, pavilions, step);
+            String due = model.call(kind, numbers[0], numbers[1], numbers[2]);
+            String got = real(x, kind, numbers[0], numbers[1], numbers[2]);
+            Check.same("run " + seed + ", call " + i + ", kind " + kind + Arrays.toString(numbers), got, due);
+            if (!got.equals(due)) {
                 return false;
             }
         }
-        return true;
+        String due = model.picture();
+        String got = Check.picture(x);
+        Check.same("run " + seed + " after " + length + " calls", got, due);
+        return got.equals(due);
+    }
+
+    /** The numbers for a call of this kind: mostly such as are taken, and such as meet what others have made. */
+    private static int[] numbers(Mixer mixer, int kind, int pavilions, int step) {
+        switch (kind) {
+            case 0: return new int[] {number(mixer, pavilions),
+                mixer.below(20) == 0 ? mixer.below(10) : 1 + mixer.below(2),
+                mixer.below(20) == 0 ? mixer.below(62) : 1 + mixer.below(9)};
+            case 1: return new int[] {number(mixer, pavilions), mixer.below(3) == 0 ? 0 : 1, 0};
+            case 5: return new int[] {number(mixer, step), 0, 0};
+            case 7: return new int[] {number(mixer, mixer.below(9) == 0 ? 1001 : 4), 0, 0};
+            case 14: case 15: case 16: case 17: return new int[] {number(mixer, pavilions), 0, 0};
+            default: return new int[] {number(mixer, 8),
+                pavilions == 6 || mixer.below(30) != 0 ? number(mixer, pavilions) : 6, 0};
+        }
     }
 
     public static void main(String[] args) {

@@ -43,11 +43,12 @@ public final class FairFolioTest {
         promise16And17QueueAndInside();
         promise18To20Cards();
         wrongNumbers();
+        readmeExample();
         Check.end();
     }
 
     private static void promise1NewObject() {
-        FairFolio x = new FairFolio();
+        Fair x = new Fair();
         Check.same("1: minute", x.minute(), 0);
         for (int v = 0; v < 8; v++) {
             Check.visitor("1", x, v, IDLE, NONE, NONE);
@@ -69,7 +70,7 @@ public final class FairFolioTest {
     }
 
     private static void roomAndTimeAtFirst(int p) {
-        FairFolio x = new FairFolio();
+        Fair x = new Fair();
         for (int v = 0; v < 3; v++) {
             Check.same("1: without a plan", x.plan(v, p), 1);
         }
@@ -84,13 +85,13 @@ public final class FairFolioTest {
 
     private static void promise2SetPavilion() {
         for (int room = 1; room <= 8; room++) {
-            FairFolio x = Fairs.crowd(8, 3, room, 60);
+            Fair x = Fairs.crowd(8, 3, room, 60);
             x.advance(1);
             Check.same("2: inside with room " + room, x.inside(3), room);
             Check.same("2: queue with room " + room, x.queue(3), 8 - room);
         }
         for (int time : new int[] {1, 2, 59, 60}) {
-            FairFolio x = Fairs.crowd(1, 0, 1, time);
+            Fair x = Fairs.crowd(1, 0, 1, time);
             x.advance(1);
             if (time > 1) {
                 x.advance(time - 1);
@@ -100,7 +101,7 @@ public final class FairFolioTest {
             Check.same("2: idle after " + time, x.stateOf(0), IDLE);
             Check.same("2: stamp after " + time, x.stamps(0), 1);
         }
-        FairFolio y = Fairs.crowd(3, 0, 2, 5);
+        Fair y = Fairs.crowd(3, 0, 2, 5);
         for (int p : Fairs.NO_PAVILION) {
             Check.fails("2: pavilion " + p, y, INDEX, () -> y.setPavilion(p, 1, 1));
             Check.fails("2: pavilion and room " + p, y, INDEX, () -> y.setPavilion(p, 0, 61));
@@ -118,7 +119,7 @@ public final class FairFolioTest {
     }
 
     private static void promise2VisitsThatGoOn() {
-        FairFolio x = Fairs.crowd(2, 0, 1, 10);
+        Fair x = Fairs.crowd(2, 0, 1, 10);
         x.advance(1);
         x.setPavilion(0, 1, 2);
         x.advance(9);
@@ -132,7 +133,7 @@ public final class FairFolioTest {
     }
 
     private static void promise2SmallerAndLargerRoom() {
-        FairFolio x = Fairs.crowd(8, 0, 4, 3);
+        Fair x = Fairs.crowd(8, 0, 4, 3);
         x.advance(1);
         x.setPavilion(0, 1, 3);
         Check.same("2: a smaller room sends nobody out", x.inside(0), 4);
@@ -149,7 +150,7 @@ public final class FairFolioTest {
     }
 
     private static void promise3Open() {
-        FairFolio x = Fairs.crowd(5, 2, 2, 5);
+        Fair x = Fairs.crowd(5, 2, 2, 5);
         x.plan(4, 3);
         Check.same("3: opening what is open", x.open(2, true), 0);
         x.advance(1);
@@ -175,7 +176,7 @@ public final class FairFolioTest {
     }
 
     private static void promise3InsideStay() {
-        FairFolio x = Fairs.crowd(3, 2, 2, 5);
+        Fair x = Fairs.crowd(3, 2, 2, 5);
         x.advance(1);
         x.open(2, false);
         Check.visitor("3: who is inside stays", x, 0, INSIDE, 2, NONE);
@@ -188,7 +189,7 @@ public final class FairFolioTest {
     }
 
     private static void promise3TurnsByClosing() {
-        FairFolio x = Fairs.crowd(2, 1, 1, 60);
+        Fair x = Fairs.crowd(2, 1, 1, 60);
         x.ask(4, 1);
         x.ask(5, 1);
         x.advance(5);
@@ -206,7 +207,7 @@ public final class FairFolioTest {
         Check.visitor("3: a kept turn counts when it is open again", x, 5, WAITING, 1, 0);
         Check.same("3: a lost turn stays lost", x.turnOf(4), NONE);
         Check.visitor("3: without it nobody comes", x, 4, IDLE, NONE, NONE);
-        FairFolio y = Fairs.crowd(3, 0, 1, 60);
+        Fair y = Fairs.crowd(3, 0, 1, 60);
         y.advance(1);
         Check.same("3: asks while it waits", y.ask(2, 0), 5);
         Check.same("3: closes", y.open(0, false), 2);
@@ -214,7 +215,7 @@ public final class FairFolioTest {
     }
 
     private static void promise4Plan() {
-        FairFolio x = new FairFolio();
+        Fair x = new Fair();
         int[] order = {4, 2, 5, 0, 3, 1};
         for (int i = 0; i < 6; i++) {
             Check.same("4: how many", x.plan(7, order[i]), i + 1);
@@ -243,7 +244,7 @@ public final class FairFolioTest {
         for (int wrong : Fairs.NO_PAVILION) {
             Check.fails("4: pavilion " + wrong, x, INDEX, () -> x.plan(0, wrong));
         }
-        FairFolio y = new FairFolio();
+        Fair y = new Fair();
         y.plan(0, 3);
         y.advance(1);
         Check.fails("4: while it is inside", y, STATE, () -> y.plan(0, 3));
@@ -251,7 +252,7 @@ public final class FairFolioTest {
     }
 
     private static void promise5Drop() {
-        FairFolio x = new FairFolio();
+        Fair x = new Fair();
         x.plan(0, 3);
         x.plan(0, 1);
         x.plan(0, 5);
@@ -280,7 +281,7 @@ public final class FairFolioTest {
     }
 
     private static void promise5DropWhileWaiting() {
-        FairFolio x = Fairs.crowd(5, 0, 1, 60);
+        Fair x = Fairs.crowd(5, 0, 1, 60);
         x.plan(3, 1);
         x.advance(1);
         x.ask(2, 0);
@@ -295,7 +296,7 @@ public final class FairFolioTest {
     }
 
     private static void promise5DropWhileWaitingByTurn() {
-        FairFolio x = Fairs.crowd(3, 0, 1, 60);
+        Fair x = Fairs.crowd(3, 0, 1, 60);
         x.ask(2, 0);
         x.advance(5);
         Check.visitor("5: waits by the turn", x, 2, WAITING, 0, 0);
@@ -307,7 +308,7 @@ public final class FairFolioTest {
     }
 
     private static void promise6Ask() {
-        FairFolio x = new FairFolio();
+        Fair x = new Fair();
         for (int v = 0; v < 8; v++) {
             Check.same("6: the first that nobody has", x.ask(v, 2), 5 * (v + 1));
         }
@@ -316,7 +317,7 @@ public final class FairFolioTest {
             Check.fails("6: has a turn here", x, STATE, () -> x.ask(who, 2));
             Check.fails("6: has a turn elsewhere", x, STATE, () -> x.ask(who, 3));
         }
-        FairFolio y = new FairFolio();
+        Fair y = new Fair();
         Check.same("6: the pavilions give turns each", y.ask(0, 0), 5);
         Check.same("6: another", y.ask(1, 1), 5);
         y.advance(4);
@@ -340,12 +341,12 @@ public final class FairFolioTest {
     }
 
     private static void promise6AskAtTheEnd() {
-        FairFolio x = Fairs.crowd(1, 0, 1, 60);
+        Fair x = Fairs.crowd(1, 0, 1, 60);
         x.ask(1, 0);
         x.advance(5);
         Check.visitor("6: waits by a turn", x, 1, WAITING, 0, 0);
         Check.fails("6: has it as long as it waits by it", x, STATE, () -> x.ask(1, 1));
-        FairFolio y = new FairFolio();
+        Fair y = new Fair();
         y.ask(0, 1);
         y.ask(1, 1);
         y.advance(5);
@@ -359,7 +360,7 @@ public final class FairFolioTest {
     }
 
     private static void promise7Advance() {
-        FairFolio x = new FairFolio();
+        Fair x = new Fair();
         for (int wrong : new int[] {0, 61, -1, Integer.MIN_VALUE, Integer.MAX_VALUE}) {
             Check.fails("7: minutes " + wrong, x, ARGUMENT, () -> x.advance(wrong));
         }
@@ -374,7 +375,7 @@ public final class FairFolioTest {
     }
 
     private static void promise7OrderWithinAMinute() {
-        FairFolio x = Fairs.crowd(3, 0, 1, 1);
+        Fair x = Fairs.crowd(3, 0, 1, 1);
         x.plan(0, 1);
         x.advance(1);
         Check.visitor("7: in at 1", x, 0, INSIDE, 0, NONE);
@@ -384,7 +385,7 @@ public final class FairFolioTest {
         Check.visitor("7: in the next in the same minute", x, 0, INSIDE, 1, NONE);
         Check.visitor("7: into the free room in the same minute", x, 1, INSIDE, 0, NONE);
         Check.visitor("7: the queue moves on", x, 2, WAITING, 0, 0);
-        FairFolio y = new FairFolio();
+        Fair y = new Fair();
         y.setPavilion(0, 1, 4);
         y.plan(0, 0);
         y.plan(0, 2);
@@ -393,7 +394,7 @@ public final class FairFolioTest {
         y.advance(4);
         Check.same("7: the visit ends before the turn of the same minute", y.stamps(0), 1);
         Check.visitor("7: the turn comes before the plan", y, 0, INSIDE, 1, NONE);
-        FairFolio z = Fairs.crowd(8, 3, 1, 60);
+        Fair z = Fairs.crowd(8, 3, 1, 60);
         z.advance(1);
         for (int v = 1; v < 8; v++) {
             Check.visitor("7: by rising numbers", z, v, WAITING, 3, v - 1);
@@ -401,7 +402,7 @@ public final class FairFolioTest {
     }
 
     private static void promise7TurnGoesAhead() {
-        FairFolio x = Fairs.crowd(3, 0, 1, 30);
+        Fair x = Fairs.crowd(3, 0, 1, 30);
         x.ask(5, 0);
         x.ask(4, 0);
         x.advance(5);
@@ -426,7 +427,7 @@ public final class FairFolioTest {
     }
 
     private static void promise7TurnFromAnotherQueue() {
-        FairFolio x = Fairs.crowd(4, 0, 1, 60);
+        Fair x = Fairs.crowd(4, 0, 1, 60);
         x.setPavilion(1, 1, 60);
         x.ask(2, 1);
         x.plan(7, 1);
@@ -440,7 +441,7 @@ public final class FairFolioTest {
     }
 
     private static void promise7TurnInTheSameQueue() {
-        FairFolio x = Fairs.crowd(5, 0, 1, 60);
+        Fair x = Fairs.crowd(5, 0, 1, 60);
         x.ask(3, 0);
         x.advance(4);
         Check.visitor("7: waits by plan", x, 3, WAITING, 0, 2);
@@ -453,7 +454,7 @@ public final class FairFolioTest {
     }
 
     private static void promise7TurnsAreLost() {
-        FairFolio x = Fairs.crowd(2, 0, 1, 60);
+        Fair x = Fairs.crowd(2, 0, 1, 60);
         x.ask(0, 0);
         x.ask(1, 1);
         x.ask(2, 2);
@@ -473,7 +474,7 @@ public final class FairFolioTest {
         Check.visitor("7: who is inside does not go to another's queue", x, 0, INSIDE, 0, NONE);
         Check.same("7: nobody came", x.inside(3) + x.queue(3), 0);
         Check.same("7: and that turn is lost", x.turnOf(0), NONE);
-        FairFolio y = Fairs.crowd(1, 0, 1, 5);
+        Fair y = Fairs.crowd(1, 0, 1, 5);
         y.advance(6);
         Check.same("7: has the stamp", y.stamps(0), 1);
         Check.same("7: asks for what it has seen", y.ask(0, 0), 10);
@@ -484,7 +485,7 @@ public final class FairFolioTest {
     }
 
     private static void promise7UsedTurnIsForgotten() {
-        FairFolio x = Fairs.crowd(2, 0, 1, 60);
+        Fair x = Fairs.crowd(2, 0, 1, 60);
         x.setPavilion(1, 1, 1);
         x.ask(1, 1);
         x.advance(5);
@@ -500,7 +501,7 @@ public final class FairFolioTest {
     }
 
     private static void promise7PlanSkips() {
-        FairFolio x = new FairFolio();
+        Fair x = new Fair();
         x.plan(0, 5);
         x.plan(0, 4);
         x.plan(0, 3);
@@ -516,7 +517,7 @@ public final class FairFolioTest {
         x.open(3, true);
         x.advance(1);
         Check.visitor("7: the last of the plan", x, 0, INSIDE, 3, NONE);
-        FairFolio y = Fairs.crowd(2, 0, 1, 60);
+        Fair y = Fairs.crowd(2, 0, 1, 60);
         y.open(1, false);
         y.drop(1, 0);
         y.plan(1, 1);
@@ -529,7 +530,7 @@ public final class FairFolioTest {
     }
 
     private static void promise8Send() {
-        FairFolio x = Fairs.crowd(2, 0, 8, 1);
+        Fair x = Fairs.crowd(2, 0, 8, 1);
         Check.fails("8: no stamp", x, STATE, () -> x.send(0, 0));
         x.advance(1);
         Check.fails("8: no stamp while inside", x, STATE, () -> x.send(0, 0));
@@ -560,7 +561,7 @@ public final class FairFolioTest {
     }
 
     private static void promise9Reprint() {
-        FairFolio x = Fairs.demanded();
+        Fair x = Fairs.demanded();
         Check.same("9: no demand of 4", x.reprint(4), 0);
         Check.same("9: nor of 1000", x.reprint(1000), 0);
         Check.same("9: of 2 or more", x.reprint(2), 5);
@@ -580,7 +581,7 @@ public final class FairFolioTest {
     }
 
     private static void promise10Minute() {
-        FairFolio x = new FairFolio();
+        Fair x = new Fair();
         x.advance(7);
         Check.same("10: 7", x.minute(), 7);
         x.ask(0, 0);
@@ -592,7 +593,7 @@ public final class FairFolioTest {
     }
 
     private static void promise11And12StateAndWhere() {
-        FairFolio x = Fairs.crowd(2, 5, 1, 2);
+        Fair x = Fairs.crowd(2, 5, 1, 2);
         Check.same("11: idle before", x.stateOf(0), IDLE);
         Check.same("12: nowhere before", x.whereIs(0), NONE);
         x.advance(1);
@@ -607,7 +608,7 @@ public final class FairFolioTest {
     }
 
     private static void promise13PlaceOf() {
-        FairFolio x = Fairs.crowd(8, 0, 1, 1);
+        Fair x = Fairs.crowd(8, 0, 1, 1);
         Check.same("13: does not wait yet", x.placeOf(7), NONE);
         for (int minute = 1; minute <= 8; minute++) {
             x.advance(1);
@@ -617,7 +618,7 @@ public final class FairFolioTest {
     }
 
     private static void promise14TurnOf() {
-        FairFolio x = Fairs.crowd(1, 0, 1, 20);
+        Fair x = Fairs.crowd(1, 0, 1, 20);
         x.advance(1);
         Check.same("14: none", x.turnOf(1), NONE);
         x.ask(1, 0);
@@ -629,7 +630,7 @@ public final class FairFolioTest {
         x.advance(1);
         Check.same("14: used up", x.turnOf(1), NONE);
         Check.same("14: and inside", x.stateOf(1), INSIDE);
-        FairFolio y = new FairFolio();
+        Fair y = new Fair();
         y.ask(0, 0);
         y.advance(5);
         Check.same("14: used up at once where there is room", y.turnOf(0), NONE);
@@ -637,7 +638,7 @@ public final class FairFolioTest {
     }
 
     private static void promise15Stamps() {
-        FairFolio x = new FairFolio();
+        Fair x = new Fair();
         int[] order = {5, 0, 3};
         for (int p : order) {
             x.setPavilion(p, 1, 1);
@@ -657,7 +658,7 @@ public final class FairFolioTest {
     }
 
     private static void promise16And17QueueAndInside() {
-        FairFolio x = Fairs.crowd(7, 4, 3, 2);
+        Fair x = Fairs.crowd(7, 4, 3, 2);
         int[] queue = {4, 4, 1, 1, 0, 0, 0};
         int[] inside = {3, 3, 3, 3, 1, 1, 0};
         for (int i = 0; i < queue.length; i++) {
@@ -670,7 +671,7 @@ public final class FairFolioTest {
     }
 
     private static void promise18To20Cards() {
-        FairFolio x = Fairs.demanded();
+        Fair x = Fairs.demanded();
         for (int p = 0; p < 3; p++) {
             Check.same("18: none left of " + p, x.stock(p), 0);
             Check.same("19: demand for " + p, x.demand(p), p + 1);
@@ -689,7 +690,7 @@ public final class FairFolioTest {
     }
 
     private static void wrongNumbers() {
-        FairFolio x = Fairs.demanded();
+        Fair x = Fairs.demanded();
         for (int wrong : Fairs.NO_VISITOR) {
             Check.fails("11: visitor " + wrong, x, INDEX, () -> x.stateOf(wrong));
             Check.fails("12: visitor " + wrong, x, INDEX, () -> x.whereIs(wrong));
@@ -705,5 +706,23 @@ public final class FairFolioTest {
             Check.fails("19: pavilion " + wrong, x, INDEX, () -> x.demand(wrong));
             Check.fails("20: pavilion " + wrong, x, INDEX, () -> x.sent(0, wrong));
         }
+    }
+
+    /** What README.md shows is so. */
+    private static void readmeExample() {
+        Fair fair = new Fair();
+        fair.setPavilion(0, 1, 3);
+        Check.same("README: plan", fair.plan(4, 0), 1);
+        Check.same("README: ask", fair.ask(5, 0), 5);
+        Check.same("README: advance", fair.advance(4), 4);
+        Check.same("README: stamps", fair.stamps(4), 1);
+        Check.same("README: send", fair.send(4, 0), true);
+        Check.same("README: stock", fair.stock(0), 9);
+        Check.same("README: turnOf", fair.turnOf(5), 5);
+        fair.advance(1);
+        Check.same("README: stateOf", fair.stateOf(5), FairFolio.INSIDE);
+        Check.same("README: whereIs", fair.whereIs(5), 0);
+        Check.same("README: turn used up", fair.turnOf(5), FairFolio.NONE);
+        Check.fails("README: no stamp", fair, STATE, () -> fair.send(5, 0));
     }
 }

@@ -7,8 +7,8 @@ final class Fairs {
     }
 
     /** A fair in which the visitors from 0 on, so many, have one pavilion with this room and time in plan. */
-    static FairFolio crowd(int visitors, int pavilion, int room, int time) {
-        FairFolio x = new FairFolio();
+    static Fair crowd(int visitors, int pavilion, int room, int time) {
+        Fair x = new Fair();
         x.setPavilion(pavilion, room, time);
         for (int v = 0; v < visitors; v++) {
             x.plan(v, pavilion);
@@ -17,8 +17,8 @@ final class Fairs {
     }
 
     /** A fair in which visitor 0 has the stamps of 0, 1 and 2, no cards are left, and demand is 1, 2 and 3. */
-    static FairFolio demanded() {
-        FairFolio x = new FairFolio();
+    static Fair demanded() {
+        Fair x = new Fair();
         for (int p = 0; p < 3; p++) {
             x.setPavilion(p, 1, 1);
             x.plan(0, p);
@@ -33,15 +33,15 @@ final class Fairs {
     }
 
     /** Lets minutes pass until this one; there may be more than 60 of them. */
-    static void advanceTo(FairFolio x, int minute) {
+    static void advanceTo(Fair x, int minute) {
         while (x.minute() < minute) {
             x.advance(Math.min(60, minute - x.minute()));
         }
     }
 
     /** A fair in which nothing has happened until this minute. */
-    static FairFolio at(int minute) {
-        FairFolio x = new FairFolio();
+    static Fair at(int minute) {
+        Fair x = new Fair();
         advanceTo(x, minute);
         return x;
     }
